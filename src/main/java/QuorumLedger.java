@@ -661,19 +661,19 @@ public final class QuorumLedger {
         }
 
         int two(int i) {
-            return at(i) << 8 | at(i + 1);
+            return i >= 0 && i < length - 1 ? (row[i] & 255) << 8 | row[i + 1] & 255 : 0;
         }
 
         int kind() {
-            return at(0);
+            return length > 0 ? row[0] & 255 : 0;
         }
 
         int signer() {
-            return at(1);
+            return length > 1 ? row[1] & 255 : 0;
         }
 
         int blockAt() {
-            return at(0) == PROPOSAL ? PROPOSAL_BLOCK : at(0) == DECIDED ? DECIDED_BLOCK : -1;
+            return kind() == PROPOSAL ? PROPOSAL_BLOCK : kind() == DECIDED ? DECIDED_BLOCK : -1;
         }
 
         void readId(byte[] from, int at) {
@@ -716,9 +716,11 @@ public final class QuorumLedger {
     /** What flies, in its order, and the rows for it. */
     private static final class Sky {
         private static final int MOST = 1000;
+        private static final int RING = 1024;
         private static final int SMALL = 128;
 
-        private final int[] order = new int[2 * MOST];
+        /** A ring of slots: a place beyond its end is one at its start. */
+        private final int[] order = new int[RING];
         private final int[] vacant = new int[MOST];
         private final int[] senders = new int[MOST];
         private final int[] receivers = new int[MOST];
@@ -743,7 +745,7 @@ public final class QuorumLedger {
         }
 
         private int slot(int k) {
-            return k >= 0 && k < flights ? order[first + k] : -1;
+            return k >= 0 && k < flights ? order[first + k & RING - 1] : -1;
         }
 
         Message loadOf(int k) {
@@ -780,12 +782,8 @@ public final class QuorumLedger {
             if (flights >= MOST) {
                 return;
             }
-            if (first + flights >= order.length) {
-                System.arraycopy(order, first, order, 0, flights);
-                first = 0;
-            }
             int slot = vacant[flights];
-            order[first + flights] = slot;
+            order[first + flights & RING - 1] = slot;
             flights++;
             senders[slot] = from;
             receivers[slot] = to;
@@ -802,11 +800,10 @@ public final class QuorumLedger {
             }
             Message m = loads[slot];
             loads[slot] = null;
-            if (k == 0) {
-                first++;
-            } else {
-                System.arraycopy(order, first + k + 1, order, first + k, flights - k - 1);
+            for (int i = k; i > 0; i--) {
+                order[first + i & RING - 1] = order[first + i - 1 & RING - 1];
             }
+            first = first + 1 & RING - 1;
             flights--;
             vacant[flights] = slot;
             return m;
@@ -1023,6 +1020,8 @@ public final class QuorumLedger {
 
     /** What the accounts have. */
     private static final class Book {
+        private static final int MOST_GIVEN = 100;
+
         final int[] has = new int[ACCOUNTS];
         final int[] made = new int[ACCOUNTS];
         final boolean[] fined = new boolean[ACCOUNTS];
@@ -1044,7 +1043,7 @@ public final class QuorumLedger {
             if (signer < 0 || signer >= ACCOUNTS || maker < 0 || maker >= ACCOUNTS || fined[signer]) {
                 return false;
             }
-            int given = Math.min(100, has[signer]);
+            int given = has[signer] < MOST_GIVEN ? has[signer] : MOST_GIVEN;
             fined[signer] = true;
             has[signer] -= given;
             has[maker] += given;
@@ -1095,7 +1094,11 @@ public final class QuorumLedger {
         }
 
         static long codeAt(byte[] row, int at) {
-            return eight(row, row.length, at) >>> 8;
+            long code = 0;
+            for (int i = at; i >= 0 && i < at + PAYMENT_SIZE && i < row.length; i++) {
+                code = code << 8 | row[i] & 255;
+            }
+            return code;
         }
 
         static void putCode(long code, byte[] row, int at) {
@@ -1335,15 +1338,15 @@ public final class QuorumLedger {
         /** Holds a PROPOSAL or vote, where none like it is held. */
         void hold(Message m) {
             int page = page(m.two(2), m.at(4));
-            if (page < 0 || m.signer() >= nodes || like(m) != null) {
+            if (page < 0 || m.signer() >= nodes) {
                 return;
             }
-            if (m.kind() == PROPOSAL) {
-                proposals[page] = m;
-                verdicts[page] = UNJUDGED;
-            } else {
-                votes[ballots(page, m.kind()) + m.signer()] = m;
+            Message[] row = m.kind() == PROPOSAL ? proposals : votes;
+            int place = m.kind() == PROPOSAL ? page : ballots(page, m.kind()) + m.signer();
+            if (row[place] != null) {
+                return;
             }
+            row[place] = m;
             m.users++;
             int half = m.two(2) & 1;
             tops[half] = Math.max(tops[half], m.at(4) + 1);
