@@ -104,6 +104,34 @@ final class Bench {
         x.deliver(k);
     }
 
+    /** Delivers a PROPOSAL or vote of a round from the one that signed it. */
+    void bringOwn(int from, int to, int kind, int round) {
+        for (int k = 0; k < flights(); k++) {
+            byte[] m = flight(k);
+            if (x.flying(k, 0) == from && x.flying(k, 1) == to && m[0] == kind && m[1] == from && m[4] == round) {
+                x.deliver(k);
+                return;
+            }
+        }
+        due("what " + from + " signed of kind " + kind + " and round " + round + " flies to " + to, false, true);
+    }
+
+    /** Delivers what comes from those that signed it, and nothing that is sent on, until a node is at a height. */
+    void untilByOwn(int node, int height) {
+        boolean found = true;
+        while (found && x.state(node, 0) < height) {
+            found = false;
+            for (int k = 0; k < flights() && !found; k++) {
+                long v = x.bytes(k, 0);
+                found = v >>> 56 >= 1 && v >>> 56 <= 3 && (v >>> 48 & 255) == x.flying(k, 0);
+                if (found) {
+                    x.deliver(k);
+                }
+            }
+        }
+        due("the height of " + node, x.state(node, 0), height);
+    }
+
     /** All that flies is delivered, the oldest first, and what is sent meanwhile. */
     void settle() {
         for (int i = 0; i < 20000 && flights() > 0; i++) {
