@@ -58,10 +58,6 @@ public final class QuorumLedger {
     public QuorumLedger(int f, int liars) {
         int faults = f >= 1 && f <= 4 ? f : 1;
         world = World.found(faults, liars >= 0 && liars <= faults ? liars : 0);
-        for (int i = 0; i < world.honest; i++) {
-            world.nodes[i].pending = 0;
-            Rules.settle(world.nodes[i]);
-        }
     }
 
     public boolean feed(int a, int b, int c, int d, int e) {
@@ -324,7 +320,7 @@ public final class QuorumLedger {
         if (n == null || signer < 0 || signer >= world.total) {
             return -1;
         }
-        return (n.book.fined[signer] ? 1 : 0) + (n.shelf.proofs[signer] != null ? 2 : 0);
+        return (n.book.fined[signer] ? 1 : 0) + (n.shelf.proofOf(signer) != null ? 2 : 0);
     }
 
     public long path(int node, int height, int k, int i) {
@@ -1135,14 +1131,30 @@ public final class QuorumLedger {
             }
         }
 
-        /** Makes the root anew if the accounts have changed. */
-        void refresh(Hasher hasher) {
-            if (stale) {
-                plant(hasher);
-                hasher.climb(-1, root, 0);
-                hasher.top(root, 0);
-                stale = false;
+        private boolean isLike(Book other) {
+            for (int k = 0; k < ACCOUNTS; k++) {
+                if (has[k] != other.has[k] || made[k] != other.made[k] || fined[k] != other.fined[k]) {
+                    return false;
+                }
             }
+            return true;
+        }
+
+        /** Makes the root anew if the accounts have changed; latest are those whose root was made last. */
+        void refresh(Hasher hasher, Book latest) {
+            if (!stale) {
+                return;
+            }
+            // nodes decide the same blocks one soon behind the other: most roots have just been made
+            if (latest.stale || !isLike(latest)) {
+                latest.mirror(this);
+                latest.plant(hasher);
+                hasher.climb(-1, latest.root, 0);
+                hasher.top(latest.root, 0);
+                latest.stale = false;
+            }
+            System.arraycopy(latest.root, 0, root, 0, ID);
+            stale = false;
         }
     }
 
@@ -1292,7 +1304,7 @@ public final class QuorumLedger {
         final Message[] decided;
         final int[] rulings;
         final Message[] shots;
-        final Message[] proofs;
+        private final Message[] proofs;
         private final long[] payments = new long[POOL];
         int decisions;
         int pooled;
@@ -1457,6 +1469,10 @@ public final class QuorumLedger {
                 }
             }
             return found;
+        }
+
+        Message proofOf(int signer) {
+            return signer >= 0 && signer < nodes ? proofs[signer] : null;
         }
 
         boolean prove(Message evidence) {
@@ -1798,7 +1814,7 @@ public final class QuorumLedger {
                 n.world.spread(n.number, m, from, m.signer());
                 return true;
             }
-            if (!held.endsLike(m) && n.shelf.proofs[m.signer()] == null) {
+            if (!held.endsLike(m) && n.shelf.proofOf(m.signer()) == null) {
                 accuse(n, held, m);
             }
             return false;
@@ -1836,7 +1852,7 @@ public final class QuorumLedger {
         /** Lets the rules act as long as one of them holds, the first one each time. */
         static void settle(Node n) {
             for (int turn = 0; turn < MOST_TURNS && n.up && n.height <= LAST_HEIGHT; turn++) {
-                n.book.refresh(n.world.hasher);
+                n.book.refresh(n.world.hasher, n.world.latest);
                 if (n.pending >= 0) {
                     begin(n);
                     continue;
@@ -1847,7 +1863,7 @@ public final class QuorumLedger {
                     return;
                 }
             }
-            n.book.refresh(n.world.hasher);
+            n.book.refresh(n.world.hasher, n.world.latest);
         }
 
         private static boolean takes(Node n) {
@@ -2095,7 +2111,7 @@ public final class QuorumLedger {
             int end = from;
             int added = 0;
             for (int s = 0; s < n.world.total && added < MOST_EVIDENCES; s++) {
-                Message evidence = n.shelf.proofs[s];
+                Message evidence = n.shelf.proofOf(s);
                 if (evidence != null && n.world.draft.punish(s, n.number)) {
                     System.arraycopy(evidence.row, 1, row, end, evidence.length - 1);
                     end += evidence.length - 1;
@@ -2148,27 +2164,36 @@ public final class QuorumLedger {
         final int honest;
         final int quorum;
         final Node[] nodes;
-        final Hasher hasher = new Hasher();
+        final Hasher hasher;
         final Sky sky = new Sky();
         final Form form;
         /** Accounts to try parts on. */
         final Book draft = new Book();
+        /** Accounts whose root was made last. */
+        final Book latest = new Book();
         final byte[] desk = new byte[1024];
         final byte[] digest = new byte[ID];
 
-        private World(int faults, int liars) {
+        private World(int faults, int liars, Hasher hasher, Form form) {
             this.faults = faults;
+            this.hasher = hasher;
+            this.form = form;
             total = 3 * faults + 1;
             honest = total - liars;
             quorum = 2 * faults + 1;
-            nodes = new Node[honest];
-            form = new Form(hasher, total);
+            nodes = new Node[Math.max(0, honest)];
         }
 
+        /** A world whose honest nodes have begun round 0. */
         static World found(int faults, int liars) {
-            World world = new World(faults, liars);
-            for (int i = 0; i < world.honest; i++) {
+            Hasher hasher = new Hasher();
+            World world = new World(faults, liars, hasher, new Form(hasher, 3 * faults + 1));
+            for (int i = 0; i < world.nodes.length; i++) {
                 world.nodes[i] = new Node(world, i);
+            }
+            for (Node n : world.nodes) {
+                n.pending = 0;
+                Rules.settle(n);
             }
             return world;
         }

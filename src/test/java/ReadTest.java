@@ -7,6 +7,7 @@ public final class ReadTest {
 
     public static void main(String[] args) {
         promise21Path();
+        promise21Edges();
         promise21Refused();
         promise22Account();
         promise23Sector();
@@ -51,6 +52,34 @@ public final class ReadTest {
             Bench.due("no such part", b.x.path(0, 2, -1, 0), -1);
             Bench.due("far behind", b.x.path(0, 2, 0, Integer.MAX_VALUE), 0);
         }
+    }
+
+    /** Parts of the first and of the last block of a chain. */
+    private static void promise21Edges() {
+        Bench b = new Bench(1, 0);
+        b.until(0, 39);
+        b.x.submit(0, 0, 1, 5, 0, 1);
+        b.settle();
+        Bench.due("payments of height 40", b.x.block(2, 40, 99) >>> 56, 1);
+        Bench.due("the path of one alone is empty", b.x.path(2, 40, 0, 0), 0);
+        Bench.due("there is no other one", b.x.path(2, 40, 1, 0), -1);
+        Bench.due("nor one of height 41", b.x.path(2, 41, 0, 0), -1);
+        Bench c = new Bench(1, 0);
+        for (int node = 0; node < 4; node++) {
+            c.x.crash(node);
+        }
+        c.settle();
+        for (int node = 0; node < 4; node += node == 0 ? 2 : 1) {
+            c.x.restart(node);
+        }
+        // the first proposer is down: the second one's block has what it knows
+        c.x.submit(2, 0, 1, 5, 0, 1);
+        c.x.submit(2, 1, 2, 5, 0, 1);
+        c.x.calm(20, 0);
+        List<byte[]> parts = List.of(Bench.payment(0, 1, 5, 0, 1), Bench.payment(1, 2, 5, 0, 1));
+        Bench.due("the first block", c.block(0, 1, 115), Bench.firstBlock(2, NONE, parts));
+        Bench.due("a path", c.x.path(0, 1, 1, 0), Plain.eight(Plain.pathOf(parts, 1), 0));
+        Bench.due("a path", c.x.path(0, 1, 0, 25), Plain.eight(Plain.pathOf(parts, 0), 25));
     }
 
     private static void promise21Refused() {

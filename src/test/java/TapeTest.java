@@ -280,6 +280,9 @@ public final class TapeTest {
         System.arraycopy(Plain.sha(Plain.part(text, 19, 120)), 0, want, 50, 32);
         Bench.due("the id", b.tape(120), want);
         b.put(text);
+        Bench.due("of a head at the start", b.x.stamp(88, -1, 0), true);
+        Bench.due("the id", Plain.part(b.tape(120), 88, 120), Plain.sha(Plain.part(text, 0, 101)));
+        b.put(text);
         Bench.due("a head too far", b.x.stamp(50, -1, 20), false);
         Bench.due("a head ahead", b.x.stamp(50, -1, -1), false);
         Bench.due("a head at the end of numbers", b.x.stamp(50, -1, Integer.MAX_VALUE), false);
