@@ -270,6 +270,63 @@ public final class AgreementTest {
             1 + random.nextInt(9));
     }
 
+    /** A node is down while the others go on; when it comes again, it must take what they have. */
+    private void leaveBehind() {
+        int behind = node();
+        pair.call("crash", behind);
+        for (int i = random.nextInt(4); i >= 0; i--) {
+            pair.call("calm", 1 + random.nextInt(12), random.nextInt(2));
+        }
+        if (random.nextInt(3) == 0) {
+            pair.call("cut", behind, 1 + random.nextInt(3));
+        }
+        pair.call("restart", behind);
+        for (int i = random.nextInt(60); i >= 0; i--) {
+            pair.call("deliver", random.nextInt(3) == 0 ? someFlight() : 0);
+        }
+    }
+
+    /** So many payments to one node that its block needs two sectors. */
+    private void payMuch() {
+        int to = random.nextInt(nodes);
+        int near = to < honest ? to : 0;
+        int[] nonces = new int[16];
+        for (int a = 0; a < 16; a++) {
+            nonces[a] = (int) (pair.call("account", near, a, 0) >> 24) & 65535;
+        }
+        for (int i = 10 + random.nextInt(80); i >= 0; i--) {
+            int from = random.nextInt(16);
+            int amount = random.nextInt(9) == 0 ? 900 : 1 + random.nextInt(20);
+            pair.call("submit", to, from, (from + 1 + random.nextInt(15)) % 16, amount, nonces[from], 1);
+            nonces[from]++;
+        }
+    }
+
+    /** Some kinds of messages, or those of some nodes, are late, while time goes on. */
+    private void starve() {
+        int kinds = random.nextInt(256);
+        int receivers = random.nextInt(1 << nodes);
+        int rounds = random.nextInt(4) == 0 ? random.nextInt(65536) : 65535;
+        for (int i = 10 + random.nextInt(60); i >= 0; i--) {
+            int flying = flying();
+            int start = flying == 0 ? 0 : random.nextInt(flying);
+            int found = -1;
+            for (int j = 0; j < 40 && j < flying && found < 0; j++) {
+                int k = (start + j) % flying;
+                long v = pair.ledger.bytes(k, 0);
+                boolean kind = (kinds >> (int) (v >>> 56 & 7) & 1) == 1;
+                boolean receiver = (receivers >> pair.ledger.flying(k, 1) & 1) == 1;
+                boolean round = (rounds >> (int) (v >>> 24 & 15) & 1) == 1;
+                found = kind && receiver && round ? k : -1;
+            }
+            if (found >= 0) {
+                pair.call("deliver", found);
+            } else {
+                pair.call("tick");
+            }
+        }
+    }
+
     private void oddCall() {
         switch (random.nextInt(9)) {
             case 0:
@@ -343,6 +400,15 @@ public final class AgreementTest {
             case 8:
                 pair.call("cut", node(), 1 + random.nextInt(random.nextInt(3) == 0 ? 30 : 4));
                 break;
+            case 9:
+                leaveBehind();
+                break;
+            case 10:
+                payMuch();
+                break;
+            case 11:
+                starve();
+                break;
             default:
                 oddCall();
                 break;
@@ -350,13 +416,15 @@ public final class AgreementTest {
     }
 
     private int run(int steps) {
-        int[] weights = new int[10];
+        int[] weights = new int[13];
         for (int i = 0; i < weights.length; i++) {
             weights[i] = random.nextInt(3) == 0 ? 0 : 1 + random.nextInt(10);
         }
         weights[0] += 3;
         weights[1] += 3;
         weights[7] += weights[6] + weights[8] / 2;
+        weights[9] /= 4;
+        weights[10] /= 3;
         for (int i = 0; i < steps && pair.wrong == 0; i++) {
             step(weights);
             if (i % 25 == 24) {
