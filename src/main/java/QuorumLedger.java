@@ -184,7 +184,7 @@ public final class QuorumLedger {
             return false;
         }
         long code = (long) from << 48 | (long) to << 40 | (long) amount << 24 | (long) nonce << 8 | tip;
-        if (!n.shelf.pool(code)) {
+        if (!n.shelf.addPayment(code)) {
             return false;
         }
         Message m = world.sky.fresh(1 + PAYMENT_SIZE);
@@ -1220,7 +1220,7 @@ public final class QuorumLedger {
         }
 
         /** NOTE CHAIN of a block. */
-        boolean chain(int height, byte[] row, int from, int to) {
+        boolean noteChain(int height, byte[] row, int from, int to) {
             if (height < 1 || height > LAST_HEIGHT) {
                 return false;
             }
@@ -1234,7 +1234,7 @@ public final class QuorumLedger {
         }
 
         /** NOTE SNAP of a SNAPSHOT, never over the newest one that is whole. */
-        boolean snap(Message m) {
+        boolean noteSnap(Message m) {
             int at = snapAt == SNAP_ONE ? SNAP_TWO : SNAP_ONE;
             open(NOTE_SNAP, m.two(1), 0);
             add(m.row, 0, m.length);
@@ -1303,7 +1303,7 @@ public final class QuorumLedger {
         private final int[] tops = new int[2];
         final Message[] decided;
         final int[] rulings;
-        final Message[] shots;
+        final Message[] snapshots;
         private final Message[] proofs;
         private final long[] payments = new long[POOL];
         int decisions;
@@ -1316,7 +1316,7 @@ public final class QuorumLedger {
             votes = new Message[2 * ROUNDS * 2 * nodes];
             decided = new Message[nodes];
             rulings = new int[nodes];
-            shots = new Message[nodes];
+            snapshots = new Message[nodes];
             proofs = new Message[nodes];
         }
 
@@ -1429,7 +1429,7 @@ public final class QuorumLedger {
             return place == 0 ? proposals[page] : votes[ballots(page, PREVOTE) + place - 1];
         }
 
-        boolean decide(int sender, Message m) {
+        boolean holdDecided(int sender, Message m) {
             if (sender < 0 || sender >= nodes || decided[sender] != null) {
                 return false;
             }
@@ -1450,20 +1450,20 @@ public final class QuorumLedger {
             return found;
         }
 
-        boolean shoot(int sender, Message m) {
+        boolean holdSnapshot(int sender, Message m) {
             if (sender < 0 || sender >= nodes) {
                 return false;
             }
             m.users++;
-            sky.drop(shots[sender]);
-            shots[sender] = m;
+            sky.drop(snapshots[sender]);
+            snapshots[sender] = m;
             return true;
         }
 
-        int shotsLike(Message m) {
+        int snapshotsLike(Message m) {
             int found = 0;
             for (int s = 0; s < nodes; s++) {
-                Message other = shots[s];
+                Message other = snapshots[s];
                 if (other != null && (other == m || sameBytes(other.row, 0, m.row, 0, SNAPSHOT_SIZE))) {
                     found++;
                 }
@@ -1475,7 +1475,7 @@ public final class QuorumLedger {
             return signer >= 0 && signer < nodes ? proofs[signer] : null;
         }
 
-        boolean prove(Message evidence) {
+        boolean addProof(Message evidence) {
             int signer = evidence.signer();
             if (signer >= nodes || proofs[signer] != null) {
                 return false;
@@ -1486,7 +1486,7 @@ public final class QuorumLedger {
             return true;
         }
 
-        long pooled(int i) {
+        long paymentAt(int i) {
             return i >= 0 && i < pooled ? payments[i] : 0;
         }
 
@@ -1499,7 +1499,7 @@ public final class QuorumLedger {
             return -1;
         }
 
-        boolean pool(long code) {
+        boolean addPayment(long code) {
             if (pooled >= POOL || find(code) >= 0) {
                 return false;
             }
@@ -1508,7 +1508,7 @@ public final class QuorumLedger {
             return true;
         }
 
-        void unpool(long code) {
+        void removePayment(long code) {
             int i = find(code);
             if (i >= 0) {
                 System.arraycopy(payments, i + 1, payments, i, pooled - i - 1);
@@ -1522,13 +1522,12 @@ public final class QuorumLedger {
             int top = 0;
             for (int round = 0; round < tops[half] && round < ROUNDS; round++) {
                 int page = half * ROUNDS + round;
-                boolean left = false;
                 if (proposals[page] != null && proposals[page].signer() != but) {
                     sky.drop(proposals[page]);
                     proposals[page] = null;
                 }
                 verdicts[page] = UNJUDGED;
-                left = proposals[page] != null;
+                boolean left = proposals[page] != null;
                 int start = ballots(page, PREVOTE);
                 for (int i = start; i < start + 2 * nodes; i++) {
                     if (votes[i] != null && votes[i].signer() != but) {
@@ -1554,9 +1553,9 @@ public final class QuorumLedger {
 
         void clearRest() {
             for (int s = 0; s < nodes; s++) {
-                sky.drop(shots[s]);
+                sky.drop(snapshots[s]);
                 sky.drop(proofs[s]);
-                shots[s] = null;
+                snapshots[s] = null;
                 proofs[s] = null;
             }
             proven = 0;
@@ -1644,8 +1643,8 @@ public final class QuorumLedger {
                 shelf.clear(height + 1, -1);
             }
             shelf.clearDecided();
-            lock(null, -1);
-            make(null, -1);
+            setLocked(null, -1);
+            setValid(null, -1);
             Arrays.fill(timers, 0);
             height = next;
             round = 0;
@@ -1656,7 +1655,7 @@ public final class QuorumLedger {
             pending = next <= LAST_HEIGHT ? 0 : -1;
         }
 
-        void lock(Message m, int r) {
+        void setLocked(Message m, int r) {
             if (m != null) {
                 m.users++;
             }
@@ -1666,7 +1665,7 @@ public final class QuorumLedger {
         }
 
         /** Its valid block becomes that of a PROPOSAL. */
-        void make(Message m, int r) {
+        void setValid(Message m, int r) {
             if (m != null) {
                 m.users++;
             }
@@ -1741,13 +1740,13 @@ public final class QuorumLedger {
                 return false;
             }
             if (kind == EVIDENCE) {
-                if (n.shelf.prove(m)) {
+                if (n.shelf.addProof(m)) {
                     n.world.spread(n.number, m, from, m.signer());
                 }
                 return false;
             }
             if (kind == SNAPSHOT) {
-                return m.two(1) > n.height && n.shelf.shoot(from, m);
+                return m.two(1) > n.height && n.shelf.holdSnapshot(from, m);
             }
             boolean signed = kind == PROPOSAL || kind == PREVOTE || kind == PRECOMMIT;
             int height = m.two(signed ? 2 : 1);
@@ -1769,13 +1768,13 @@ public final class QuorumLedger {
                 n.world.sky.drop(ask);
             }
             if (!signed) {
-                return height == n.height && n.shelf.decide(from, m);
+                return height == n.height && n.shelf.holdDecided(from, m);
             }
             return height <= n.height + 1 && takeSigned(n, from, m);
         }
 
         private static void takePayment(Node n, int from, Message m) {
-            if (n.shelf.pool(Book.codeAt(m.row, 1))) {
+            if (n.shelf.addPayment(Book.codeAt(m.row, 1))) {
                 n.world.spread(n.number, m, from, from);
             }
         }
@@ -1836,7 +1835,7 @@ public final class QuorumLedger {
             int at = first.named ? 7 + ID : 7;
             m.row[at] = 1;
             second.writeId(m.row, at + 1);
-            n.shelf.prove(m);
+            n.shelf.addProof(m);
             n.world.spread(n.number, m, n.number, n.number);
             n.world.sky.drop(m);
         }
@@ -1869,8 +1868,8 @@ public final class QuorumLedger {
         private static boolean takes(Node n) {
             Shelf shelf = n.shelf;
             for (int s = 0; s < n.world.total; s++) {
-                Message m = shelf.shots[s];
-                if (m != null && m.two(1) > n.height && shelf.shotsLike(m) > n.world.faults) {
+                Message m = shelf.snapshots[s];
+                if (m != null && m.two(1) > n.height && shelf.snapshotsLike(m) > n.world.faults) {
                     take(n, m);
                     return true;
                 }
@@ -1879,7 +1878,7 @@ public final class QuorumLedger {
         }
 
         private static void take(Node n, Message m) {
-            if (!n.log.snap(m)) {
+            if (!n.log.noteSnap(m)) {
                 n.fall();
                 return;
             }
@@ -1906,7 +1905,8 @@ public final class QuorumLedger {
             }
             for (int round = 0; round < shelf.top(n.height); round++) {
                 Message m = shelf.proposal(n.height, round);
-                if (m != null && shelf.votesFor(PRECOMMIT, n.height, round, m) >= n.world.quorum && approves(n, round)) {
+                if (m != null && shelf.votesFor(PRECOMMIT, n.height, round, m) >= n.world.quorum
+                    && approves(n, round)) {
                     adopt(n, m, PROPOSAL_BLOCK);
                     return true;
                 }
@@ -1915,7 +1915,7 @@ public final class QuorumLedger {
         }
 
         private static void adopt(Node n, Message m, int at) {
-            if (!n.log.chain(n.height, m.row, at, m.length)) {
+            if (!n.log.noteChain(n.height, m.row, at, m.length)) {
                 n.fall();
                 return;
             }
@@ -1923,7 +1923,7 @@ public final class QuorumLedger {
             m.writeId(n.lastId, 0);
             int payments = m.at(at + PAYMENTS_AT);
             for (int p = 1; p <= payments; p++) {
-                n.shelf.unpool(Book.codeAt(m.row, m.length - p * PAYMENT_SIZE));
+                n.shelf.removePayment(Book.codeAt(m.row, m.length - p * PAYMENT_SIZE));
             }
             n.forgetAnswers(n.height, n.height + 1);
             n.enter(n.height + 1);
@@ -1968,7 +1968,8 @@ public final class QuorumLedger {
                 return false;
             }
             Message m = n.shelf.proposal(n.height, n.round);
-            if (m == null || n.shelf.votesFor(PREVOTE, n.height, n.round, m) < n.world.quorum || !approves(n, n.round)) {
+            if (m == null || n.shelf.votesFor(PREVOTE, n.height, n.round, m) < n.world.quorum
+                || !approves(n, n.round)) {
                 return false;
             }
             n.been |= BEEN_LOCK;
@@ -1978,8 +1979,8 @@ public final class QuorumLedger {
                         n.fall();
                         return true;
                     }
-                    n.lock(m, n.round);
-                    n.make(m, n.round);
+                    n.setLocked(m, n.round);
+                    n.setValid(m, n.round);
                 }
                 utter(n, n.vote(PRECOMMIT, m), PRECOMMIT_STEP);
             } else if (n.validRound != n.round) {
@@ -1987,7 +1988,7 @@ public final class QuorumLedger {
                     n.fall();
                     return true;
                 }
-                n.make(m, n.round);
+                n.setValid(m, n.round);
             }
             return true;
         }
@@ -2126,7 +2127,7 @@ public final class QuorumLedger {
             int end = from;
             int added = 0;
             for (int i = 0; i < n.shelf.pooled && added < MOST_PAYMENTS; i++) {
-                long code = n.shelf.pooled(i);
+                long code = n.shelf.paymentAt(i);
                 if (n.world.draft.pay(code, n.number)) {
                     Book.putCode(code, row, end);
                     end += PAYMENT_SIZE;
