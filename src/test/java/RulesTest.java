@@ -229,6 +229,23 @@ public final class RulesTest {
         b.tell(3, 0, edge);
         Bench.due("a valid round above its round", b.flights(), at + 4);
         wellFormedOthers(b);
+        wellFormedMany();
+    }
+
+    /** At most 64 payments and two evidences. */
+    private static void wellFormedMany() {
+        byte[] evidence = Bench.evidence(3, 1, 1, 2, Bench.filled(1), Bench.filled(2));
+        for (int payments = 64; payments <= 65; payments++) {
+            for (int evidences = 2; evidences <= 3; evidences++) {
+                byte[] block = Bench.firstBlock(3, java.util.Collections.nCopies(evidences, evidence),
+                    java.util.Collections.nCopies(payments, Bench.payment(0, 1, 1, 0, 1)));
+                Bench b = new Bench(1, 1);
+                int at = b.flights();
+                b.tell(3, 0, Bench.proposal(3, 1, 2, 255, block));
+                Bench.due(payments + " payments and " + evidences + " evidences", b.flights() - at,
+                    payments == 64 && evidences == 2 ? 2 : 0);
+            }
+        }
     }
 
     private static void wellFormedOthers(Bench b) {
@@ -337,7 +354,11 @@ public final class RulesTest {
         ahead[3] = 1;
         byte[] root = rich.clone();
         root[35] ^= 1;
-        byte[][] blocks = {poor, late, twice, ahead, root, rich};
+        byte[] once = Bench.firstBlock(0, List.of(Bench.evidence(3, 3, 1, 0, null, Bench.filled(1))),
+            List.of(Bench.payment(0, 1, 999, 0, 1), Bench.payment(0, 1, 1, 1, 1), Bench.payment(3, 1, 899, 0, 1)));
+        byte[] fined = Bench.firstBlock(0, List.of(Bench.evidence(3, 3, 1, 0, null, Bench.filled(1))),
+            List.of(Bench.payment(0, 1, 999, 0, 1), Bench.payment(3, 1, 900, 0, 1)));
+        byte[][] blocks = {poor, late, twice, ahead, root, fined, once, rich};
         for (int i = 0; i < blocks.length; i++) {
             Bench b = new Bench(1, 1);
             // round 2 is the liar's: 0 goes there with F + 1 signers
@@ -353,7 +374,7 @@ public final class RulesTest {
                 byte[] m = b.flight(k);
                 vote = m[0] == 2 && m[1] == 0 && m[4] == 2 ? m : vote;
             }
-            Bench.due("block " + i, vote, Bench.vote(2, 0, 1, 2, i == blocks.length - 1 ? rich : null));
+            Bench.due("block " + i, vote, Bench.vote(2, 0, 1, 2, i >= blocks.length - 2 ? blocks[i] : null));
         }
     }
 
