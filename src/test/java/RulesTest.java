@@ -16,6 +16,7 @@ public final class RulesTest {
         evidences();
         wellFormed();
         take();
+        takeWhatWasPaid();
         takeNeedsTheSame();
         decideByDecided();
         decideNeedsValid();
@@ -304,6 +305,30 @@ public final class RulesTest {
         Bench.due("read back", b.x.state(0, 0), 41);
         Bench.due("ASK", b.flight(at + 3), Plain.row(5, 0, 41));
         Bench.due("accounts read back", b.x.account(0, 5, 0), b.x.account(1, 5, 0));
+    }
+
+    /** A node takes over who has paid, and goes on with the others from there. */
+    private static void takeWhatWasPaid() {
+        Bench b = new Bench(2, 1);
+        b.x.crash(0);
+        b.tell(6, 2, Plain.join(Plain.row(6), Bench.evidence(6, 2, 1, 0, null, Bench.filled(1))));
+        b.x.submit(2, 3, 4, 50, 0, 1);
+        for (int i = 0; i < 40 && b.x.state(1, 0) < 8; i++) {
+            b.x.calm(1, 1);
+        }
+        Bench.due("the liar has paid", b.x.paid(1, 6), 3);
+        b.x.restart(0);
+        for (int i = 0; i < 40 && b.x.state(0, 0) < 8; i++) {
+            b.x.calm(1, 1);
+        }
+        Bench.due("a SNAPSHOT was taken", b.x.sector(0, 280, 0) >>> 56, 6);
+        Bench.due("it knows who has paid", b.x.paid(0, 6) & 1, 1);
+        Bench.due("and what is left", b.x.balance(0, 6), b.x.balance(1, 6));
+        Bench.due("and how many payments there were", b.x.account(0, 3, 0) >> 24 & 65535, 1);
+        int height = b.x.state(0, 0);
+        b.x.calm(30, 1);
+        Bench.due("it goes on", b.x.state(0, 0) > height, true);
+        Bench.due("with the same blocks", b.x.block(0, height, 20), b.x.block(1, height, 20));
     }
 
     /** Whoever has not the block answers with a SNAPSHOT; two that are not the same bytes take nothing. */
