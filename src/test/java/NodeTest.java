@@ -9,11 +9,13 @@ public final class NodeTest {
         promise16Cut();
         promise16Replaced();
         promise16TwoSectors();
+        promise16WholeSector();
         promise16EveryNote();
         promise17Restart();
         promise17Refused();
         promise17Locked();
         promise17Chain();
+        promise17Snap();
         promise18State();
         promise18AtTheEnd();
         promise19Block();
@@ -127,6 +129,37 @@ public final class NodeTest {
         Bench.due("the root of its parts", b.x.block(0, 2, 67), Plain.eight(Plain.rootOf(Plain.parts(
             b.block(0, 2, size))), 0));
         Bench.due("payments that were not in it", b.x.state(2, 6), 2);
+    }
+
+    /** A note that fills a sector to its last byte needs no second one. */
+    private static void promise16WholeSector() {
+        Bench b = new Bench(1, 1);
+        b.tell(3, 2, Plain.join(Plain.row(6), Bench.evidence(3, 3, 1, 0, null, Bench.filled(1))));
+        for (int i = 0; i < 52; i++) {
+            b.x.submit(2, i % 8, 9, 1, i / 8, 1);
+        }
+        b.until(0, 2);
+        // PREVOTE, LOCK, PRECOMMIT come first
+        b.x.cut(0, 4);
+        int sectors = b.x.state(0, 10);
+        for (int i = 0; i < 3000 && b.x.state(0, 5) == 1; i++) {
+            b.x.deliver(0);
+        }
+        Bench.due("LOCK has two sectors", b.x.state(0, 10), sectors + 4);
+        Bench.due("CHAIN was cut", b.x.sector(0, 2, 0), -1);
+        Bench.due("behind it nothing was written", b.x.sector(0, 3, 0), -1);
+        b.x.restart(0);
+        sectors = b.x.state(0, 10);
+        int notes = b.x.state(0, 9);
+        for (int i = 0; i < 3000 && b.x.state(0, 0) == 2; i++) {
+            b.x.deliver(0);
+        }
+        byte[] block = b.block(0, 2, 101 + 39 + 52 * 7);
+        Bench.due("the size it tells", b.x.sector(0, 2, 0), Plain.eight(Plain.row(1, 0, 2, 0, 2, 0, 0, 0), 0));
+        Bench.due("one sector", b.sector(0, 2, 512), Plain.join(b.sector(0, 2, 8), block));
+        Bench.due("its root", Plain.part(block, 67, 99), Plain.rootOf(Plain.parts(block)));
+        Bench.due("no second one", b.x.sector(0, 3, 0), -1);
+        Bench.due("CHAIN and ROUND", (b.x.state(0, 10) - sectors) * 10 + b.x.state(0, 9) - notes, 22);
     }
 
     /** Whatever note is cut, a node that comes again has what a node has that fell right ahead of that note. */
@@ -257,6 +290,63 @@ public final class NodeTest {
         Bench.due("ASK of its height", b.flight(b.flights() - 1), Plain.row(5, 0, 4));
     }
 
+    /** The newest SNAP that is whole is never written over. */
+    private static void promise17Snap() {
+        Bench b = new Bench(2, 1);
+        b.until(0, 3);
+        // it answers with its first block, which it will be asked for no more
+        b.tell(6, 0, Plain.row(5, 0, 1));
+        Bench.due("DECIDED", b.find(0, 6, 4) >= 0, true);
+        int[] places = {280, 282, 280};
+        for (int turn = 0; turn < 3; turn++) {
+            b.x.crash(0);
+            int height = b.x.state(0, 0);
+            for (int i = 0; i < 200 && b.x.state(1, 0) < height + 7; i++) {
+                b.x.calm(1, 0);
+            }
+            b.settle();
+            b.x.restart(0);
+            b.tell(6, 0, Bench.vote(2, 6, height + 1, 3, null));
+            b.x.cut(0, turn == 1 ? 1 : 0);
+            takeFrom(b);
+            if (turn == 1) {
+                Bench.due("SNAP was cut", b.x.state(0, 5), 0);
+                Bench.due("its height", b.x.state(0, 0), height);
+                Bench.due("the older one is whole", b.x.sector(0, 280, 0) >>> 56, 6);
+                Bench.due("the newer one can't be read", b.x.sector(0, 282, 0), -1);
+                b.x.restart(0);
+                takeFrom(b);
+            }
+            int now = b.x.state(0, 0);
+            Bench.due("the others' height", now, b.x.state(1, 0));
+            Bench.due("SNAP", b.x.sector(0, places[turn], 0), Plain.eight(Plain.row(6, 0, now, 0, 0, 123, 0, 0), 0));
+            answersBehindTake(b, now);
+        }
+    }
+
+    /** Whoever is asked answers node 0, whatever else flies. */
+    private static void takeFrom(Bench b) {
+        for (int i = 1; i <= 4; i++) {
+            b.bring(0, i, 5);
+        }
+        for (int i = 1; i <= 4 && b.x.state(0, 5) == 1; i++) {
+            b.bring(i, 0, 7);
+        }
+    }
+
+    private static void answersBehindTake(Bench b, int height) {
+        int at = b.flights();
+        for (int h = height - 4; h < height; h++) {
+            b.tell(6, 0, Plain.row(5, 0, h));
+            Bench.due("it has no block of these", b.flight(b.flights() - 1)[0], 7);
+        }
+        Bench.due("four answers", b.flights(), at + 4);
+        b.tell(6, 0, Plain.row(5, 0, height));
+        for (int k = at + 4; k < b.flights(); k++) {
+            Bench.due("what was held for another height is gone", b.flight(k)[3], height);
+        }
+    }
+
     private static void promise18State() {
         Bench b = new Bench(1, 1);
         for (int[] r : new int[][] {{3, 0}, {4, 0}, {-1, 0}, {0, -1}, {0, 12}, {0, Integer.MAX_VALUE},
@@ -282,6 +372,10 @@ public final class NodeTest {
 
     private static void promise18AtTheEnd() {
         Bench b = new Bench(1, 0);
+        b.until(0, 40);
+        b.x.crash(0);
+        b.x.restart(0);
+        Bench.due("a timer at height 40", b.x.state(0, 7) > 0, true);
         b.settle();
         for (int node = 0; node < 4; node++) {
             int[] want = {41, 0, 0, -1, -1, 1, 0, 0, 0};

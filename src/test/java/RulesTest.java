@@ -22,6 +22,9 @@ public final class RulesTest {
         decideNeedsValid();
         skip();
         lockAndUnlock();
+        lockedLater();
+        lockedThis();
+        judgedAnew();
         build();
         lastRound();
         Bench.finish("RulesTest");
@@ -455,8 +458,11 @@ public final class RulesTest {
         Bench.due("round", b.x.state(node, 1), 1);
     }
 
-    /** Node 0 locks a block in round 0, says no to another one in round 1, and yes to it with Q PREVOTEs of round 1. */
-    private static void lockAndUnlock() {
+    /** What node 2 proposes in round 1 of height 1, where node 0 is locked. */
+    private static final byte[] OTHER = Bench.firstBlock(2, NONE, List.of(Bench.payment(0, 1, 5, 0, 1)));
+
+    /** Node 0 locks a block in round 0, and says no to another one in round 1, which node 1 locks there. */
+    private static Bench twoLocks() {
         Bench b = new Bench(1, 1);
         b.bring(1, 0, 1);
         b.bring(1, 0, 2);
@@ -477,18 +483,23 @@ public final class RulesTest {
             b.x.tick();
         }
         Bench.due("2 is in round 1", b.x.state(2, 1), 1);
-        byte[] other = Bench.firstBlock(2, NONE, List.of(Bench.payment(0, 1, 5, 0, 1)));
         int k = b.find(2, 0, 1);
-        Bench.due("its proposal", b.flight(k), Bench.proposal(2, 1, 1, 255, other));
-        b.tell(3, 0, Bench.vote(2, 3, 1, 1, other));
+        Bench.due("its proposal", b.flight(k), Bench.proposal(2, 1, 1, 255, OTHER));
+        b.tell(3, 0, Bench.vote(2, 3, 1, 1, OTHER));
         b.x.deliver(k);
         Bench.due("0 is in round 1", b.x.state(0, 1), 1);
         Bench.due("for none", b.flight(latest(b, 0, 2)), Bench.vote(2, 0, 1, 1, null));
-        b.tell(3, 1, Bench.vote(2, 3, 1, 1, other));
+        b.tell(3, 1, Bench.vote(2, 3, 1, 1, OTHER));
         b.bringOwn(2, 1, 1, 1);
-        Bench.due("1 is not locked", b.flight(latest(b, 1, 2)), Bench.vote(2, 1, 1, 1, other));
+        Bench.due("1 is not locked", b.flight(latest(b, 1, 2)), Bench.vote(2, 1, 1, 1, OTHER));
         b.bringOwn(2, 1, 2, 1);
         Bench.due("1 is locked with round 1", b.x.state(1, 3), 1);
+        return b;
+    }
+
+    /** Node 0 says yes to another block than that of its lock with Q PREVOTEs of a later round. */
+    private static void lockAndUnlock() {
+        Bench b = twoLocks();
         b.bringOwn(2, 0, 2, 1);
         Bench.due("Q PREVOTEs whatever for", b.x.state(0, 7) & 2, 2);
         for (int i = 0; i < 5; i++) {
@@ -500,7 +511,7 @@ public final class RulesTest {
         Bench.due("VALID", b.x.state(0, 9), notes + 1);
         Bench.due("still locked", b.x.state(0, 3), 0);
         Bench.due("its valid block's round", b.x.state(0, 4), 1);
-        Bench.due("its valid block is the new one", b.block(0, -1, other.length), other);
+        Bench.due("its valid block is the new one", b.block(0, -1, OTHER.length), OTHER);
         Bench.due("locked is the old one", b.block(0, 0, 101), FIRST);
         b.tell(3, 0, Bench.vote(3, 3, 1, 1, null));
         b.bringOwn(1, 0, 3, 1);
@@ -508,9 +519,97 @@ public final class RulesTest {
             b.x.tick();
         }
         Bench.due("0 is in round 2", b.x.state(0, 1), 2);
-        b.tell(3, 0, Bench.proposal(3, 1, 2, 1, other));
+        b.tell(3, 0, Bench.proposal(3, 1, 2, 1, OTHER));
         Bench.due("for the block of a later round than its lock", b.flight(latest(b, 0, 2)),
-            Bench.vote(2, 0, 1, 2, other));
+            Bench.vote(2, 0, 1, 2, OTHER));
+    }
+
+    /** Node 1 is locked with round 1: Q PREVOTEs of round 0 for another block do not move it. */
+    private static void lockedLater() {
+        Bench b = twoLocks();
+        b.bringOwn(0, 1, 2, 0);
+        b.tell(3, 1, Bench.vote(2, 3, 1, 0, FIRST));
+        b.bringOwn(2, 1, 3, 0);
+        b.tell(3, 1, Bench.vote(3, 3, 1, 1, null));
+        for (int i = 0; i < 5; i++) {
+            b.x.tick();
+        }
+        b.tell(3, 0, Bench.vote(2, 3, 1, 2, null));
+        b.bringOwn(2, 0, 2, 1);
+        for (int i = 0; i < 5; i++) {
+            b.x.tick();
+        }
+        b.bringOwn(0, 1, 3, 1);
+        for (int i = 0; i < 5; i++) {
+            b.x.tick();
+        }
+        Bench.due("1 is in round 2", b.x.state(1, 1), 2);
+        b.tell(3, 1, Bench.proposal(3, 1, 2, 0, FIRST));
+        Bench.due("for none", b.flight(latest(b, 1, 2)), Bench.vote(2, 1, 1, 2, null));
+    }
+
+    /** A node that is locked with a later round says yes to just that block, whatever its valid round. */
+    private static void lockedThis() {
+        Bench b = new Bench(1, 1);
+        b.bring(1, 0, 1);
+        b.tell(3, 0, Bench.vote(2, 3, 1, 0, FIRST));
+        b.bringOwn(1, 0, 2, 0);
+        for (int i = 0; i < 4; i++) {
+            b.x.tick();
+        }
+        // 2 is for none, but learns of Q PREVOTEs for the block: it is valid for it
+        b.tell(3, 2, Bench.vote(2, 3, 1, 0, FIRST));
+        b.bringOwn(1, 2, 2, 0);
+        for (int i = 0; i < 4; i++) {
+            b.x.tick();
+        }
+        b.bringOwn(1, 2, 1, 0);
+        b.bringOwn(0, 2, 2, 0);
+        Bench.due("valid, but not locked", b.x.state(2, 4) * 10 + b.x.state(2, 3), -1);
+        b.tell(3, 2, Bench.vote(3, 3, 1, 0, null));
+        b.bringOwn(0, 2, 3, 0);
+        for (int i = 0; i < 4; i++) {
+            b.x.tick();
+        }
+        byte[] again = Bench.proposal(2, 1, 1, 0, FIRST);
+        Bench.due("its valid block once more", b.flight(latest(b, 2, 1)), again);
+        b.tell(3, 0, Bench.vote(2, 3, 1, 1, FIRST));
+        b.bringOwn(2, 0, 1, 1);
+        Bench.due("for it", b.flight(latest(b, 0, 2)), Bench.vote(2, 0, 1, 1, FIRST));
+        b.bringOwn(2, 0, 2, 1);
+        Bench.due("locked with round 1", b.x.state(0, 3), 1);
+        b.tell(3, 0, Bench.vote(3, 3, 1, 1, null));
+        b.tell(3, 1, Bench.vote(3, 3, 1, 1, null));
+        b.bringOwn(2, 1, 1, 1);
+        b.bringOwn(0, 1, 2, 0);
+        b.tell(3, 1, Bench.vote(2, 3, 1, 0, FIRST));
+        b.tell(3, 1, Bench.vote(2, 3, 1, 1, null));
+        b.bringOwn(2, 1, 2, 1);
+        for (int i = 0; i < 5; i++) {
+            b.x.tick();
+        }
+        b.bringOwn(1, 0, 3, 1);
+        for (int i = 0; i < 5; i++) {
+            b.x.tick();
+        }
+        Bench.due("0 is in round 2", b.x.state(0, 1), 2);
+        b.tell(3, 0, Bench.proposal(3, 1, 2, 0, FIRST));
+        Bench.due("for it", b.flight(latest(b, 0, 2)), Bench.vote(2, 0, 1, 2, FIRST));
+    }
+
+    /** A block is judged by its own chain, whatever was of an earlier height's round. */
+    private static void judgedAnew() {
+        Bench b = new Bench(1, 1);
+        b.until(0, 3);
+        b.settle();
+        byte[] block = Bench.block(3, 3, Bench.idOf(b.block(0, 2, 101)), b.accountsRoot(0), NONE,
+            List.of(Bench.payment(0, 1, 5, 7, 1)));
+        b.tell(3, 0, Bench.proposal(3, 3, 0, 255, block));
+        Bench.due("for none", b.flight(latest(b, 0, 2)), Bench.vote(2, 0, 3, 0, null));
+        block = Bench.block(3, 3, Bench.idOf(b.block(0, 2, 101)), b.accountsRoot(0), NONE,
+            List.of(Bench.payment(0, 1, 5, 0, 1)));
+        b.tell(3, 1, Bench.proposal(3, 3, 0, 255, block));
+        Bench.due("for it", b.flight(latest(b, 1, 2)), Bench.vote(2, 1, 3, 0, block));
     }
 
     private static int latest(Bench b, int from, int kind) {
