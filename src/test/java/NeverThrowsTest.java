@@ -4,7 +4,7 @@ import java.util.Arrays;
 import java.util.Comparator;
 import java.util.Random;
 
-/** No call throws, or fails to end, for any arguments in any state; and a call that is refused changes nothing. */
+/** No call throws, or fails to end, for any arguments in any state. */
 public final class NeverThrowsTest {
     private static final int[] ODD = {0, 1, -1, 2, 3, 4, 5, 7, 8, 12, 13, 15, 16, 31, 32, 40, 41, 64, 65, 101, 102, 255,
         256, 283, 284, 511, 512, 513, 999, 1000, 1001, 65535, 65536, Integer.MAX_VALUE, Integer.MAX_VALUE - 1,

@@ -98,6 +98,11 @@ final class Pair {
                 call("path", node, h, random.nextInt(4), random.nextInt(70));
             }
         }
+        int faults = Audit.faults(ledger);
+        if (faults > 0) {
+            wrong++;
+            System.out.println(name + ": " + faults + " messages have another number of users, behind\n" + calls);
+        }
         int flying = (int) call("count", 0);
         for (int i = 0; i < 30 && flying > 0; i++) {
             int k = random.nextInt(flying);
