@@ -320,7 +320,7 @@ public final class QuorumLedger {
         if (n == null || signer < 0 || signer >= world.total) {
             return -1;
         }
-        return (n.book.fined[signer] ? 1 : 0) + (n.shelf.proofOf(signer) != null ? 2 : 0);
+        return (n.book.hasPaid(signer) ? 1 : 0) + (n.shelf.proofOf(signer) != null ? 2 : 0);
     }
 
     public long path(int node, int height, int k, int i) {
@@ -1020,7 +1020,8 @@ public final class QuorumLedger {
 
         final int[] has = new int[ACCOUNTS];
         final int[] made = new int[ACCOUNTS];
-        final boolean[] fined = new boolean[ACCOUNTS];
+        /** Bit k is 1 if node k has paid. */
+        private int fined;
         final byte[] root = new byte[ID];
         private final byte[] line = new byte[ACCOUNT_SIZE];
         private boolean stale = true;
@@ -1032,15 +1033,19 @@ public final class QuorumLedger {
         void mirror(Book other) {
             System.arraycopy(other.has, 0, has, 0, ACCOUNTS);
             System.arraycopy(other.made, 0, made, 0, ACCOUNTS);
-            System.arraycopy(other.fined, 0, fined, 0, ACCOUNTS);
+            fined = other.fined;
+        }
+
+        boolean hasPaid(int k) {
+            return (fined >> k & 1) == 1;
         }
 
         boolean punish(int signer, int maker) {
-            if (signer < 0 || signer >= ACCOUNTS || maker < 0 || maker >= ACCOUNTS || fined[signer]) {
+            if (signer < 0 || signer >= ACCOUNTS || maker < 0 || maker >= ACCOUNTS || hasPaid(signer)) {
                 return false;
             }
             int given = has[signer] < MOST_GIVEN ? has[signer] : MOST_GIVEN;
-            fined[signer] = true;
+            fined |= 1 << signer;
             has[signer] -= given;
             has[maker] += given;
             return true;
@@ -1110,16 +1115,17 @@ public final class QuorumLedger {
             out[at] = (byte) k;
             putTwo(out, at + 1, has[k]);
             putTwo(out, at + 3, made[k]);
-            out[at + 5] = (byte) (fined[k] ? 1 : 0);
+            out[at + 5] = (byte) (hasPaid(k) ? 1 : 0);
         }
 
         /** Takes the accounts over from a SNAPSHOT. */
         void load(byte[] row) {
             stale = true;
+            fined = 0;
             for (int k = 0, at = 3 + ID; k < ACCOUNTS && at <= row.length - 5; k++, at += ACCOUNT_SIZE - 1) {
                 has[k] = twoBytes(row, at);
                 made[k] = twoBytes(row, at + 2);
-                fined[k] = row[at + 4] == 1;
+                fined |= row[at + 4] == 1 ? 1 << k : 0;
             }
         }
 
@@ -1133,11 +1139,11 @@ public final class QuorumLedger {
 
         private boolean isLike(Book other) {
             for (int k = 0; k < ACCOUNTS; k++) {
-                if (has[k] != other.has[k] || made[k] != other.made[k] || fined[k] != other.fined[k]) {
+                if (has[k] != other.has[k] || made[k] != other.made[k]) {
                     return false;
                 }
             }
-            return true;
+            return fined == other.fined;
         }
 
         /** Makes the root anew if the accounts have changed; latest are those whose root was made last. */
@@ -2062,16 +2068,17 @@ public final class QuorumLedger {
             Arrays.fill(n.timers, 0);
             n.setTimer(0);
             if (n.world.proposer(n.height, round) == n.number) {
-                utter(n, n.valid != null ? again(n) : build(n), PROPOSE_STEP);
+                Message old = n.valid;
+                utter(n, old != null ? again(n, old) : build(n), PROPOSE_STEP);
             }
         }
 
         /** A PROPOSAL of the valid block. */
-        private static Message again(Node n) {
-            Message m = n.world.sky.fresh(n.valid.length);
+        private static Message again(Node n, Message old) {
+            Message m = n.world.sky.fresh(old.length);
             signProposal(n, m.row, n.validRound);
-            System.arraycopy(n.valid.row, PROPOSAL_BLOCK, m.row, PROPOSAL_BLOCK, m.length - PROPOSAL_BLOCK);
-            System.arraycopy(n.valid.id, 0, m.id, 0, 4);
+            System.arraycopy(old.row, PROPOSAL_BLOCK, m.row, PROPOSAL_BLOCK, m.length - PROPOSAL_BLOCK);
+            System.arraycopy(old.id, 0, m.id, 0, 4);
             m.named = true;
             m.form = Message.WELL;
             return m;
