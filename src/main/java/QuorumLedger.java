@@ -1041,7 +1041,10 @@ public final class QuorumLedger {
         }
 
         boolean punish(int signer, int maker) {
-            if (signer < 0 || signer >= ACCOUNTS || maker < 0 || maker >= ACCOUNTS || hasPaid(signer)) {
+            if (signer < 0 || signer >= ACCOUNTS || maker < 0 || maker >= ACCOUNTS) {
+                return false;
+            }
+            if ((fined >> signer & 1) == 1) {
                 return false;
             }
             int given = has[signer] < MOST_GIVEN ? has[signer] : MOST_GIVEN;
