@@ -16,6 +16,8 @@ public final class FlightEdgesTest {
         submitNode();
         submitNumbers();
         submitTwice();
+        submitLater();
+        rowsApart();
         submitRoom();
         deliverWhich();
         calmNumbers();
@@ -213,6 +215,45 @@ public final class FlightEdgesTest {
         // what came by a message is in the pool, too
         p.due(0, "deliver", 7);
         p.refused(0, "submit", 2, 1, 2, 5, 0, 1);
+    }
+
+    private static void submitLater() {
+        Play.sentence("it is in the pool then, and it sends it to all");
+        Play p = new Play(1, 1);
+        p.until(0, 3);
+        for (int i = 0; i < 40; i++) {
+            int at = p.flights();
+            p.due(1, "submit", i % 3, 4, 5, 1 + i, i, 1);
+            p.check("the PAYMENT", p.flight(at), Plain.join(Plain.row(0), Bench.payment(4, 5, 1 + i, i, 1)));
+        }
+    }
+
+    /** Messages that fly at once, small and great, behind others that have come. */
+    private static void rowsApart() {
+        Play.sentence("Messages FLY until they are delivered, and then no more");
+        for (int size : new int[] {1, 127, 128, 129, 500, 1000}) {
+            Play p = new Play(1, 1);
+            for (int turn = 0; turn < 3; turn++) {
+                p.put(Plain.join(Plain.row(40 + turn), new byte[size - 1]));
+                p.due(1, "lie", 3, 0, size);
+            }
+            p.due(41, "deliver", p.flights() - 2);
+            p.due(40, "deliver", p.flights() - 2);
+            for (int turn = 0; turn < 3; turn++) {
+                p.put(Plain.join(Plain.row(50 + turn), new byte[size - 2 < 0 ? 0 : size - 2], Plain.row(7)));
+                p.due(1, "lie", 3, 0, size);
+            }
+            int at = p.flights() - 4;
+            p.check("the one that was left", p.call("bytes", at, 0) >>> 56, 42);
+            for (int turn = 0; turn < 3; turn++) {
+                p.check("the one of turn " + turn, p.call("bytes", at + 1 + turn, 0) >>> 56, 50 + turn);
+                p.due(size, "flying", at + 1 + turn, 2);
+            }
+            for (int i = 0; i < 4; i++) {
+                p.call("deliver", p.flights() - 1);
+            }
+            p.due(6, "count", 0);
+        }
     }
 
     private static void submitRoom() {

@@ -25,6 +25,7 @@ public final class HoldsEdgesTest {
         asksBelow();
         answersToSigners();
         answersWithoutBlock();
+        answersInARow();
         asksOfItsHeight();
         asksAbove();
         greaterHeights();
@@ -502,6 +503,46 @@ public final class HoldsEdgesTest {
         Play q = p.fork();
         q.tell(6, 0, Plain.row(5, 0, 6));
         q.check("DECIDED of the first one that it has", q.call("bytes", q.flights() - 1, 0) >>> 56, 4);
+    }
+
+    /** One node answers for many heights, as it goes on: each time with the right block. */
+    private static void answersInARow() {
+        Play.sentence("with DECIDED of its chain, if that is one of the four heights below its own, and it has the block");
+        Play p = new Play(2, 1);
+        for (int own = 2; own <= 8; own++) {
+            p.until(0, own);
+            for (int height = Math.max(1, own - 5); height < own; height++) {
+                for (int turn = 0; turn < (height == own - 2 ? 2 : 1); turn++) {
+                    p.tell(6, 0, Plain.row(5, 0, height));
+                    byte[] m = p.flight(p.flights() - 1);
+                    byte[] block = Plain.join(Plain.row(4), p.read(m.length - 1, "block", 0, height));
+                    if (height >= own - 4) {
+                        p.check("DECIDED of " + height + " at " + own, m, block);
+                    } else {
+                        p.check("SNAPSHOT at " + own, Plain.part(m, 0, 3), Plain.row(7, 0, own));
+                    }
+                }
+            }
+        }
+        Play.sentence("the blocks between it does not have");
+        // it has answered for 4 .. 7; when it has taken a later height, it has none of the four below that
+        p.due(1, "crash", 0);
+        boolean ready = false;
+        for (int i = 0; i < 60 && !ready; i++) {
+            p.call("calm", 1, 1);
+            ready = p.state(1, 0) >= 13 && p.state(2, 0) == p.state(1, 0) && p.state(3, 0) == p.state(1, 0);
+        }
+        p.due(1, "restart", 0);
+        for (int node = 1; node <= 3; node++) {
+            p.bring(0, node, 5);
+            p.bring(node, 0, 7);
+        }
+        int own = p.state(0, 0);
+        p.check("it has taken", own, p.state(1, 0));
+        for (int height = own - 4; height < own; height++) {
+            p.tell(6, 0, Plain.row(5, 0, height));
+            p.check("SNAPSHOT for " + height, Plain.part(p.flight(p.flights() - 1), 0, 3), Plain.row(7, 0, own));
+        }
     }
 
     private static void asksOfItsHeight() {

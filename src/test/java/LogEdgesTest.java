@@ -32,6 +32,10 @@ public final class LogEdgesTest {
         againSetsTimer();
         againNotBeen();
         againWithSnap();
+        againRules();
+        againAtForty();
+        cutBehindLaterRound();
+        fallLosesOfZero();
         Play.finish("LogEdgesTest");
     }
 
@@ -137,12 +141,24 @@ public final class LogEdgesTest {
         Play.sentence("in sectors of 512 bytes, which are written one by one, as many as it needs");
         Play p = big(new byte[][] {Bench.evidence(5, 2, 1, 0, null, LOW)}, 52);
         p.until(0, 2);
+        Play cut = p.fork();
         p.until(0, 3);
         byte[] block = p.read(504, "block", 0, 2);
         p.check("its parts", block[99] * 10 + block[100], 521);
         p.due(0, "block", 0, 2, 504);
         p.check("a note of 512 bytes", p.read(512, "sector", 0, 2), note(1, 2, 0, block));
         p.due(-1, "sector", 0, 3, 0);
+        // PREVOTE, LOCK, PRECOMMIT come first; the one sector of CHAIN is its last one
+        long sectors = cut.call("state", 0, 10);
+        cut.due(1, "cut", 0, 4);
+        for (int i = 0; i < 20 && cut.state(0, 5) == 1; i++) {
+            cut.call("calm", 1, 1);
+        }
+        cut.due(0, "state", 0, 5);
+        cut.due(-1, "sector", 0, 2, 0);
+        cut.due(-1, "block", 0, 2, 0);
+        // SENT, two of LOCK, SENT
+        cut.due(sectors + 4, "state", 0, 10);
     }
 
     private static void justTwoSectors() {
@@ -696,5 +712,126 @@ public final class LogEdgesTest {
                 p.due(1, "crash", 0);
             }
         }
+    }
+
+    private static void againRules() {
+        Play.sentence("then it sends ASK of its height to all others, and the rules follow");
+        // node 2 is the proposer of height 2: its PROPOSAL is noted, its PREVOTE is cut
+        Play p = new Play(1, 0);
+        p.due(1, "cut", 2, 7);
+        for (int i = 0; i < 20 && p.state(2, 5) == 1; i++) {
+            p.call("calm", 1, 1);
+        }
+        p.due(2, "state", 2, 0);
+        p.due(0, "state", 2, 2);
+        p.due(1, "state", 2, 8);
+        int at = p.flights();
+        p.due(1, "restart", 2);
+        p.due(1, "state", 2, 2);
+        p.due(1, "state", 2, 7);
+        p.due(2, "state", 2, 8);
+        p.due(at + 6, "count", 0);
+        p.check("ASK first", p.flight(at), Plain.row(5, 0, 2));
+        p.check("then its PREVOTE", Plain.part(p.flight(at + 3), 0, 6), Plain.row(2, 2, 0, 2, 0, 1));
+        // a note of what follows may be cut, too
+        Play q = new Play(1, 0);
+        q.due(1, "cut", 2, 7);
+        for (int i = 0; i < 20 && q.state(2, 5) == 1; i++) {
+            q.call("calm", 1, 1);
+        }
+        q.due(1, "cut", 2, 1);
+        q.due(1, "restart", 2);
+        q.due(0, "state", 2, 5);
+        q.due(0, "state", 2, 2);
+        q.due(at + 3, "count", 0);
+    }
+
+    private static void againAtForty() {
+        Play.sentence("the timer of its step is set (not at height 41)");
+        Play p = new Play(1, 0);
+        for (int i = 0; i < 300 && p.state(0, 0) < 40; i++) {
+            p.call("calm", 1, 1);
+        }
+        p.due(40, "state", 0, 0);
+        p.due(1, "crash", 0);
+        p.due(1, "restart", 0);
+        p.due(1 << p.state(0, 2), "state", 0, 7);
+    }
+
+    private static void cutBehindLaterRound() {
+        Play.sentence("round and step are 0; (round and step 0 without any)");
+        // the first block is decided in round 1, and ROUND of height 2 is cut
+        Play p = new Play(1, 0);
+        p.ticks(4);
+        p.call("calm", 4, 0);
+        p.due(1, "submit", 2, 0, 1, 5, 0, 1);
+        p.due(1, "state", 0, 1);
+        p.due(1, "state", 0, 0);
+        for (int i = 0; i < 30 && p.call("sector", 0, 0, 0) == -1 && p.state(0, 5) == 1; i++) {
+            // ahead of CHAIN: what comes next is CHAIN, then ROUND
+            Play q = p.fork();
+            q.call("calm", 1, 1);
+            if (q.state(0, 0) == 2) {
+                break;
+            }
+            p.call("calm", 1, 1);
+        }
+        p.due(1, "state", 0, 1);
+        p.due(2, "state", 0, 2);
+        p.due(1, "cut", 0, 2);
+        p.call("calm", 1, 1);
+        int[] want = {2, 0, 0, -1, -1, 0, 0, 0, 0};
+        for (int what = 0; what < want.length; what++) {
+            if (what != 6) {
+                p.due(want[what], "state", 0, what);
+            }
+        }
+        // for one that is down, too, seal tells what is behind its chain
+        List<byte[]> lines = new java.util.ArrayList<>();
+        for (int k = 0; k < 16; k++) {
+            lines.add(p.read(6, "account", 0, k));
+        }
+        p.put(new byte[101]);
+        p.due(0, "seal", 0, 101, 0);
+        byte[] head = Plain.join(new byte[3], Bench.idOf(p.read(101, "block", 0, 1)), Plain.rootOf(lines), new byte[34]);
+        p.due(Plain.eight(Plain.sha(head), 0), "hash", 101, 0);
+        p.due(1, "restart", 0);
+        p.due(0, "state", 0, 1);
+        p.due(1, "state", 0, 7);
+    }
+
+    /** What node 0 sent is lost to another node that falls, as all is. */
+    private static void fallLosesOfZero() {
+        Play.sentence("and what is held are lost");
+        // node 0 is at height 4, where it proposes; node 2 is at 3 still, and holds its PROPOSAL of the next height
+        Play p = new Play(1, 0);
+        boolean ready = false;
+        for (int i = 0; i < 60 && !ready; i++) {
+            p.call("calm", 1, 1);
+            ready = true;
+            for (int node = 0; node < 4; node++) {
+                ready &= p.state(node, 0) == 3 && p.state(node, 2) == 2;
+            }
+        }
+        p.check("all are about to decide", ready, true);
+        for (int from = 1; from < 4; from++) {
+            p.bringOwn(from, 0, 3, 3, 0);
+        }
+        p.due(4, "state", 0, 0);
+        int k = p.findOwn(0, 2, 1, 4, 0);
+        p.due(1, "copy", k);
+        p.due(1, "copy", k);
+        int at = p.flights();
+        p.due(1, "deliver", k);
+        // ASK, and sent on to 1 and 3
+        p.due(at - 1 + 3, "count", 0);
+        at = p.flights();
+        p.due(1, "deliver", p.findOwn(0, 2, 1, 4, 0));
+        p.due(at - 1 + 1, "count", 0);
+        p.due(1, "crash", 2);
+        p.due(1, "restart", 2);
+        at = p.flights();
+        p.due(1, "deliver", p.findOwn(0, 2, 1, 4, 0));
+        p.due(at - 1 + 3, "count", 0);
     }
 }

@@ -24,6 +24,8 @@ public final class NodeEdgesTest {
         blockMissing();
         paidWho();
         paidProof();
+        ownMemory();
+        manyCalls();
         Play.finish("NodeEdgesTest");
     }
 
@@ -253,7 +255,9 @@ public final class NodeEdgesTest {
             p.due(-1, "block", node, 0, 0);
             p.due(-1, "block", node, -1, 0);
         }
-        p.due(-1, "block", 0, 1, 0);
+        for (int height : new int[] {1, -2, -3, MIN, MAX}) {
+            p.due(-1, "block", 0, height, 0);
+        }
         p.until(0, 2);
         Play.sentence("nothing is locked or valid");
         p.due(-1, "block", 0, 0, 0);
@@ -306,5 +310,65 @@ public final class NodeEdgesTest {
         p.due(1, "paid", 2, 6);
         p.tell(6, 2, Plain.join(Plain.row(6), Bench.evidence(6, 3, 1, 0, null, Bench.filled(1))));
         p.due(3, "paid", 2, 6);
+    }
+
+    /** A call of a run that goes far, and its answer; its numbers are those of the run. */
+    private static long step(QuorumLedger x, int run, int i) {
+        switch (i % 8) {
+            case 0:
+                return x.submit(i % 3, i % 16, (i + run) % 16, 1 + i % 9, i / 64, 1) ? 1 : 0;
+            case 1:
+                return x.calm(1 + run % 2, run % 3);
+            case 2:
+                return x.feed(i, run, i * run, -i, run * 77) ? 1 : 0;
+            case 3:
+                return i % 24 == 3 ? x.crash(run % 3) ? 1 : 0 : x.hash(x.count(5), i % 4);
+            case 4:
+                return i % 24 == 12 ? x.restart(run % 3) ? 1 : 0 : x.bytes(i % 30, i % 40);
+            case 5:
+                return x.sector(i % 3, 80 + i % 16, i % 50);
+            case 6:
+                return x.account(i % 3, i % 16, i % 130);
+            default:
+                return i % 40 == 7 ? x.lie(3, run % 3, 15) ? 1 : 0 : x.block(i % 3, 1 + i % 5, i % 100);
+        }
+    }
+
+    private static void ownMemory() {
+        Play.sentence("All memory is the class's own");
+        Play p = new Play(1, 1);
+        QuorumLedger[] beside = new QuorumLedger[4];
+        for (int run = 0; run < 4; run++) {
+            beside[run] = new QuorumLedger(1, 1);
+        }
+        long[][] answers = new long[4][500];
+        for (int i = 0; i < 500; i++) {
+            for (int run = 0; run < 4; run++) {
+                answers[run][i] = step(beside[run], run, i);
+            }
+        }
+        for (int run = 0; run < 4; run++) {
+            QuorumLedger alone = new QuorumLedger(1, 1);
+            for (int i = 0; i < 500; i++) {
+                p.check("call " + i + " of run " + run, answers[run][i], step(alone, run, i));
+            }
+            p.check("it went far", alone.state(2, 0) > 2, true);
+        }
+    }
+
+    private static void manyCalls() {
+        Play.sentence("An object is used for at most 512 calls after it has been made");
+        // the 512th call is as good as the first one
+        Play p = new Play(1, 0);
+        for (int i = 0; i < 510; i++) {
+            p.call("tick");
+        }
+        p.due(0, "tick");
+        p.due(511, "count", 2);
+        Play q = new Play(1, 0);
+        for (int i = 0; i < 511; i++) {
+            q.call("calm", 1, 1);
+        }
+        q.due(41, "state", 0, 0);
     }
 }

@@ -277,6 +277,10 @@ public final class PaymentEdgesTest {
         Play q = decided(p, 3, List.of(Bench.evidence(3, 2, 1, 0, null, ID)), NONE);
         q.due(1000, "balance", 0, 3);
         q.due(1, "paid", 0, 3);
+        // what it has is as before, but not its state, nor the accounts' root
+        q.put(new byte[101]);
+        q.due(0, "seal", 0, 101, 0);
+        q.check("the accounts' root", Plain.part(q.tape(), 35, 67), root(q));
         valid("it has as much as before", p, 3, List.of(Bench.evidence(3, 2, 1, 0, null, ID)),
             List.of(Bench.payment(3, 1, 991, 0, 9)), true);
         valid("but not more", p, 3, List.of(Bench.evidence(3, 2, 1, 0, null, ID)),

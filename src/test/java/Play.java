@@ -77,6 +77,9 @@ final class Play {
         Play p = new Play(2, 1);
         p.until(0, height);
         p.due(1, "crash", 0);
+        // accounts that are not as at first
+        p.due(1, "submit", 1, 0, 15, 700, 0, 9);
+        p.tell(6, 1, Plain.join(Plain.row(6), Bench.evidence(6, 2, 1, 0, null, Bench.filled(1))));
         p.until(1, height + 5);
         p.due(height + 5, "state", 2, 0);
         p.due(1, "restart", 0);

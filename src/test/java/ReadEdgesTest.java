@@ -12,6 +12,7 @@ public final class ReadEdgesTest {
         pathParts();
         pathWhere();
         pathEvidencesFirst();
+        pathLast();
         accountWhere();
         accountEnd();
         sectorWhere();
@@ -124,6 +125,41 @@ public final class ReadEdgesTest {
             p.check("path " + k, p.read(path.length, "path", 0, 2, k), path);
         }
         p.due(-1, "path", 0, 2, 65, 0);
+    }
+
+    private static void pathLast() {
+        Play.sentence("of an honest node's block at a height of its chain (1 .. 40)");
+        Play p = new Play(1, 0);
+        for (int i = 0; i < 400 && p.state(0, 0) < 39; i++) {
+            p.call("calm", 1, 1);
+        }
+        for (int node = 0; node < 4; node++) {
+            for (int k = 0; k < 3; k++) {
+                p.due(1, "submit", node, 4 * node + k, 15, 1, 0, 1);
+            }
+        }
+        p.call("calm", 64, 1);
+        p.due(41, "state", 0, 0);
+        byte[] head = p.read(101, "block", 0, 40);
+        p.check("it has parts", head[99] > 1, true);
+        List<byte[]> parts = Plain.parts(p.read(101 + 7 * head[99], "block", 0, 40));
+        byte[] path = Plain.pathOf(parts, 1);
+        p.check("a path of the last block", p.read(path.length, "path", 0, 40, 1), path);
+        p.due(-1, "path", 0, 41, 1, 0);
+        // seal tells the accounts' root behind the last block
+        Play.sentence("the id ahead of it and the accounts' root become those behind its chain");
+        List<byte[]> lines = new ArrayList<>();
+        for (int k = 0; k < 16; k++) {
+            lines.add(p.read(6, "account", 0, k));
+        }
+        p.put(new byte[101]);
+        p.due(0, "seal", 0, 101, 0);
+        p.due(Plain.eight(Plain.sha(head3(p, lines)), 0), "hash", 101, 0);
+    }
+
+    /** A head of 0s with the id ahead and the accounts' root behind a last block. */
+    private static byte[] head3(Play p, List<byte[]> lines) {
+        return Plain.join(new byte[3], Bench.idOf(p.read(101, "block", 0, 40)), Plain.rootOf(lines), new byte[34]);
     }
 
     private static void accountWhere() {

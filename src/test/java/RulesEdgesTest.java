@@ -9,8 +9,10 @@ public final class RulesEdgesTest {
 
     public static void main(String[] args) {
         for (int f = 1; f <= 4; f++) {
-            takeNeeds(f);
-            decideNeedsDecided(f);
+            takeNeeds(f, 0);
+            takeNeeds(f, 2);
+            decideNeedsDecided(f, 0);
+            decideNeedsDecided(f, 3);
             decideNeedsPrecommits(f);
             skipNeeds(f);
             lockNeeds(f);
@@ -19,21 +21,27 @@ public final class RulesEdgesTest {
             timerTwoNeeds(f);
         }
         takeIsNoted();
+        takeTheNext();
         takeTheEnd();
         skipGreatest();
         skipAboveOnly();
+        skipCountsZero();
         validRoundNone();
         validRoundBelow();
         validRoundNeeds();
+        validRoundOne();
         lockedOther();
         lockedThis();
         lockOnce();
         validNoted();
+        validCut();
+        proposedAgain();
         timersOnce();
         timersOfRounds();
         behindFifteen();
         buildProofs();
         buildPayments();
+        buildAnew();
         poolBehindBlocks();
         firstHasAhead();
         Play.finish("RulesEdgesTest");
@@ -46,52 +54,97 @@ public final class RulesEdgesTest {
         return new Play(f, f - 1);
     }
 
-    private static void takeNeeds(int f) {
-        Play.sentence("TAKE: F + 1 SNAPSHOTs that are the same bytes");
-        Play p = nearly(f);
-        p.due(1, "crash", 0);
-        boolean ready = false;
-        for (int i = 0; i < 200 && !ready; i++) {
-            p.call("calm", 1, 1);
-            ready = p.state(1, 0) >= 6;
-            for (int node = 2; node <= f + 1; node++) {
-                ready &= p.state(node, 0) == p.state(1, 0);
-            }
+    /** The first f + 1 nodes that are not one that was down, who asks. */
+    private static int[] answerers(int f, int down) {
+        int[] nodes = new int[f + 1];
+        for (int i = 0; i <= f; i++) {
+            nodes[i] = i < down ? i : i + 1;
         }
-        int height = p.state(1, 0);
-        p.due(1, "restart", 0);
-        for (int node = 1; node <= f + 1; node++) {
-            p.due(1, "state", 0, 0);
-            p.bring(0, node, 5);
-            p.bring(node, 0, 7);
-        }
-        p.due(height, "state", 0, 0);
-        p.due(-1, "block", 0, height - 1, 0);
-        p.check("its accounts", p.call("account", 0, 1, 0), p.call("account", 1, 1, 0));
-        p.due(1, "state", 0, 7);
+        return nodes;
     }
 
-    private static void decideNeedsDecided(int f) {
-        Play.sentence("DECIDE: a valid block of its height with F + 1 DECIDED of just it");
+    /** A node was down while the others went on, to a height at least, the same for all that will answer it. */
+    private static Play leftBehind(int f, int down, int least) {
         Play p = nearly(f);
-        p.due(1, "crash", 0);
+        p.due(1, "crash", down);
+        p.due(1, "submit", down == 2 ? 3 : 2, 0, 15, 700, 0, 9);
         boolean ready = false;
         for (int i = 0; i < 200 && !ready; i++) {
             p.call("calm", 1, 1);
-            ready = true;
-            for (int node = 1; node <= f + 1; node++) {
-                ready &= p.state(node, 0) >= 2 && p.state(node, 0) <= 5;
+            int height = p.state(answerers(f, down)[0], 0);
+            ready = height >= least;
+            for (int node : answerers(f, down)) {
+                ready &= p.state(node, 0) == height;
             }
         }
-        p.check("all have decided", ready, true);
-        p.due(1, "restart", 0);
-        for (int node = 1; node <= f + 1; node++) {
-            p.due(1, "state", 0, 0);
-            p.bring(0, node, 5);
-            p.bring(node, 0, 4);
+        p.due(1, "restart", down);
+        p.due(1, "state", down, 0);
+        return p;
+    }
+
+    private static void takeNeeds(int f, int down) {
+        Play.sentence("TAKE: F + 1 SNAPSHOTs that are the same bytes");
+        Play p = leftBehind(f, down, 6);
+        int[] others = answerers(f, down);
+        int height = p.state(others[0], 0);
+        for (int node : others) {
+            p.bring(down, node, 5);
         }
-        p.due(2, "state", 0, 0);
-        p.check("the block", p.read(101, "block", 0, 1), FIRST);
+        Play q = p.fork();
+        for (int node : others) {
+            p.due(1, "state", down, 0);
+            p.bring(node, down, 7);
+        }
+        p.due(height, "state", down, 0);
+        p.due(-1, "block", down, height - 1, 0);
+        for (int k = 0; k < 16; k++) {
+            p.check("account " + k, p.call("account", down, k, 0), p.call("account", others[0], k, 0));
+        }
+        p.due(1, "state", down, 7);
+        Play.sentence("and what is held are lost");
+        for (int i = 0; i < others.length; i++) {
+            if (i == others.length - 1) {
+                q.due(1, "crash", down);
+                q.due(1, "restart", down);
+            }
+            q.bring(others[i], down, 7);
+        }
+        q.due(1, "state", down, 0);
+    }
+
+    private static void decideNeedsDecided(int f, int down) {
+        Play.sentence("DECIDE: a valid block of its height with F + 1 DECIDED of just it");
+        Play p = leftBehind(f, down, 3);
+        int[] others = answerers(f, down);
+        Play next = p.fork();
+        for (int node : others) {
+            p.bring(down, node, 5);
+        }
+        Play q = p.fork();
+        for (int node : others) {
+            p.due(1, "state", down, 0);
+            p.bring(node, down, 4);
+        }
+        p.due(2, "state", down, 0);
+        p.check("the block", p.read(101, "block", down, 1), FIRST);
+        // CHAIN, and round 0 of height 2 has begun
+        p.due(3, "state", down, 9);
+        p.due(1, "state", down, 7);
+        Play.sentence("of each sender the first DECIDED of its height");
+        // those of the height before are gone: it has the next block by DECIDED, too
+        for (int i = 0; i < 20 && next.state(down, 0) < 3; i++) {
+            next.call("calm", 1, 1);
+        }
+        next.check("the second block", next.call("block", down, 2, 0) >>> 48, 2);
+        Play.sentence("and what is held are lost");
+        for (int i = 0; i < others.length; i++) {
+            if (i == others.length - 1) {
+                q.due(1, "crash", down);
+                q.due(1, "restart", down);
+            }
+            q.bring(others[i], down, 4);
+        }
+        q.due(1, "state", down, 0);
     }
 
     private static void decideNeedsPrecommits(int f) {
@@ -289,6 +342,85 @@ public final class RulesEdgesTest {
         }
     }
 
+    /** A vote of nodes 0 and 1 comes to the other one, and one of the liar to both. */
+    private static void votesAlong(Play p, int kind, int height, int round, byte[] block) {
+        p.bringOwn(0, 1, kind, height, round);
+        p.bringOwn(1, 0, kind, height, round);
+        p.tell(3, 0, Bench.vote(kind, 3, height, round, block));
+        p.tell(3, 1, Bench.vote(kind, 3, height, round, block));
+    }
+
+    /** Nodes 0 and 1 decide with the liar's votes; node 2, whose round passes without a block, is down. */
+    private static void decideAlong(Play p, int height, boolean precommits) {
+        int round = 0;
+        byte[] block;
+        if (height % 4 == 2) {
+            p.ticks(4);
+            votesAlong(p, 2, height, 0, null);
+            votesAlong(p, 3, height, 0, null);
+            p.ticks(4);
+            round = 1;
+        }
+        if (height % 4 < 2) {
+            int maker = height % 4;
+            block = p.flight(p.findOwn(maker, 1 - maker, 1, height, 0));
+            p.bringOwn(maker, 1 - maker, 1, height, 0);
+        } else {
+            byte[] m = Bench.proposal(3, height, round, 255, Bench.block(height, 3, LOW, LOW, NONE, NONE));
+            p.put(m);
+            p.due(0, "seal", 6, m.length, 0);
+            block = Plain.part(p.tape(), 0, m.length);
+            p.due(1, "lie", 3, 0, m.length);
+            p.due(1, "deliver", p.flights() - 1);
+            p.tell(3, 1, block);
+        }
+        block = Plain.part(block, 6, block.length);
+        votesAlong(p, 2, height, round, block);
+        if (precommits) {
+            votesAlong(p, 3, height, round, block);
+            p.due(height + 1, "state", 0, 0);
+        } else {
+            // node 0 does not hear of the others'
+            p.bringOwn(0, 1, 3, height, round);
+            p.tell(3, 1, Bench.vote(3, 3, height, round, block));
+        }
+        p.due(height + 1, "state", 1, 0);
+    }
+
+    private static void takeTheNext() {
+        Play.sentence("(of votes and PROPOSALs what was held for it stays, if it was the next one, else none)");
+        Play p = new Play(1, 1);
+        p.due(1, "crash", 2);
+        for (int height = 1; height <= 5; height++) {
+            decideAlong(p, height, height < 5);
+        }
+        p.due(5, "state", 0, 0);
+        // node 2 comes again, and takes the height 6 of node 1, which is its own to propose
+        p.due(1, "restart", 2);
+        p.bring(2, 1, 5);
+        p.due(1, "pass", 3, 2, p.find(1, 2, 7));
+        p.due(7, "deliver", p.flights() - 1);
+        p.bring(1, 2, 7);
+        p.due(6, "state", 2, 0);
+        byte[] m = p.flight(p.findOwn(2, 0, 1, 6, 0));
+        // node 0 holds that PROPOSAL of the next height, and asks; node 2 does not have block 5
+        p.bringOwn(2, 0, 1, 6, 0);
+        p.bringOwn(2, 0, 2, 6, 0);
+        p.due(5, "state", 0, 0);
+        p.bring(0, 2, 5);
+        p.due(1, "pass", 3, 0, p.find(2, 0, 7));
+        p.due(7, "deliver", p.flights() - 1);
+        p.bring(2, 0, 7);
+        p.due(6, "state", 0, 0);
+        // it was held, and now is of its height: node 0 prevotes for it
+        p.due(1, "state", 0, 2);
+        p.check("its PREVOTE", p.flight(p.findOwn(0, 1, 2, 6, 0)),
+            Bench.vote(2, 0, 6, 0, Plain.part(m, 6, m.length)));
+        int at = p.flights();
+        p.tell(3, 0, Plain.row(5, 0, 6));
+        p.due(at + 3, "count", 0);
+    }
+
     private static void takeTheEnd() {
         Play.sentence("TAKE at the end: behind height 40 none begins");
         Play p = new Play(2, 1);
@@ -386,6 +518,44 @@ public final class RulesEdgesTest {
         p.due(notes, "state", 0, 9);
     }
 
+    private static void skipCountsZero() {
+        Play.sentence("messages held of F + 1 signers; A round BEGINS: timers are gone; timer 0 is set");
+        // nodes 0 and 1 come to round 1; node 2 hears of it by node 0 and the liar
+        Play p = new Play(1, 1);
+        p.ticks(4);
+        for (int kind = 2; kind <= 3; kind++) {
+            for (int node = 0; node <= 1; node++) {
+                p.tell(3, node, Bench.vote(kind, 3, 1, 0, null));
+            }
+            p.bringOwn(0, 1, kind, 1, 0);
+            p.bringOwn(1, 0, kind, 1, 0);
+            p.ticks(4);
+        }
+        p.due(1, "state", 0, 1);
+        p.due(0, "state", 2, 1);
+        // node 2 has Q PREVOTEs, whatever for: timer 1, which is gone when the round begins
+        p.bringOwn(0, 2, 2, 1, 0);
+        p.bringOwn(1, 2, 2, 1, 0);
+        p.due(2, "state", 2, 7);
+        p.ticks(3);
+        p.tell(3, 2, Bench.vote(3, 3, 1, 1, null));
+        p.due(0, "state", 2, 1);
+        p.ticks(1);
+        // by then its PRECOMMIT for none is out, and Q PRECOMMITs set timer 2
+        p.due(2, "state", 2, 2);
+        p.bringOwn(0, 2, 3, 1, 0);
+        p.bringOwn(1, 2, 3, 1, 0);
+        p.due(4, "state", 2, 7);
+        p.ticks(2);
+        // round 1 lasts a tick longer: node 0 prevotes for none
+        int k = p.findOwn(0, 2, 2, 1, 1);
+        p.check("a PREVOTE of round 1", k >= 0, true);
+        p.call("deliver", k);
+        p.due(1, "state", 2, 1);
+        p.due(1, "state", 2, 7);
+        p.due(1, "state", 2, 2);
+    }
+
     // ---- PREVOTEs
 
     /** Round 2 of height 1, which is the liar's; FIRST has two PREVOTEs of round 0, of nodes 1 and 2. */
@@ -471,6 +641,31 @@ public final class RulesEdgesTest {
         other.ticks(1);
         other.due(1, "state", 0, 2);
         voted(other, 2, null);
+    }
+
+    private static void validRoundOne() {
+        Play.sentence("Q PREVOTEs of that round for the block");
+        // node 2 proposes in round 1, and node 1 is for it in time
+        Play p = new Play(1, 1);
+        p.passRound();
+        byte[] m = p.flight(p.findOwn(2, 1, 1, 1, 1));
+        byte[] block = Plain.part(m, 6, m.length);
+        p.bringOwn(2, 1, 1, 1, 1);
+        p.passRound();
+        p.due(2, "state", 0, 1);
+        // Q PREVOTEs of round 1 are not of round 0
+        for (int valid = 0; valid <= 1; valid++) {
+            for (int round = 0; round <= 1; round++) {
+                Play q = p.fork();
+                q.tell(3, 0, Bench.proposal(3, 1, 2, valid, block));
+                q.due(0, "state", 0, 2);
+                q.tell(3, 0, Bench.vote(2, 3, 1, round, block));
+                q.due(valid == 1 && round == 1 ? 1 : 0, "state", 0, 2);
+                if (valid == 1 && round == 1) {
+                    voted(q, 2, block);
+                }
+            }
+        }
     }
 
     /** Node 0 has locked FIRST in round 0, and comes to round 2, which is the liar's. */
@@ -608,6 +803,58 @@ public final class RulesEdgesTest {
         p.tell(3, 0, Bench.vote(2, 3, 1, 0, FIRST));
         p.due(notes + 1, "state", 0, 9);
         p.due(0, "state", 0, 4);
+    }
+
+    private static void validCut() {
+        Play.sentence("NOTE VALID: it is its valid block, with this round");
+        Play p = new Play(1, 1);
+        p.bringOwn(1, 2, 1, 1, 0);
+        p.ticks(4);
+        p.bringOwn(1, 0, 2, 1, 0);
+        p.bringOwn(2, 0, 2, 1, 0);
+        p.ticks(4);
+        p.bringOwn(1, 0, 1, 1, 0);
+        p.due(1, "cut", 0, 1);
+        p.tell(3, 0, Bench.vote(2, 3, 1, 0, FIRST));
+        p.due(0, "state", 0, 5);
+        p.due(-1, "state", 0, 4);
+        p.due(-1, "block", 0, -1, 0);
+        p.due(-1, "sector", 0, 86, 0);
+        p.due(2, "state", 0, 2);
+    }
+
+    private static void proposedAgain() {
+        Play.sentence("if it is the proposer, it sends a PROPOSAL: of its valid block, with that round, if it has one");
+        // node 0 locks FIRST in round 2, which is the liar's, and is the proposer of round 3
+        Play p = new Play(1, 1);
+        p.passRound();
+        p.passRound();
+        p.tell(3, 0, Bench.proposal(3, 1, 2, 255, FIRST));
+        p.tell(3, 1, Bench.proposal(3, 1, 2, 255, FIRST));
+        p.bringOwn(1, 0, 2, 1, 2);
+        p.tell(3, 0, Bench.vote(2, 3, 1, 2, FIRST));
+        p.due(2, "state", 0, 3);
+        for (int node = 1; node <= 2; node++) {
+            p.tell(3, node, Bench.vote(2, 3, 1, 2, null));
+        }
+        p.due(1, "submit", 0, 0, 1, 5, 0, 1);
+        p.ticks(6);
+        p.bringOwn(2, 1, 2, 1, 2);
+        p.bringOwn(1, 2, 2, 1, 2);
+        p.ticks(6);
+        p.tell(3, 0, Bench.vote(3, 3, 1, 2, null));
+        p.bringOwn(1, 0, 3, 1, 2);
+        p.ticks(6);
+        p.due(3, "state", 0, 1);
+        p.check("its PROPOSAL", p.flight(p.findOwn(0, 1, 1, 1, 3)), Bench.proposal(0, 1, 3, 2, FIRST));
+        // it holds Q PREVOTEs of round 2 for it: rule 4
+        p.due(1, "state", 0, 2);
+        voted(p, 3, FIRST);
+        // others' votes for it count
+        p.tell(3, 0, Bench.vote(2, 3, 1, 3, FIRST));
+        p.due(2, "state", 0, 3);
+        p.tell(3, 1, Bench.vote(2, 3, 1, 2, FIRST));
+        p.due(1, "state", 0, 2);
     }
 
     // ---- timers
@@ -754,6 +1001,22 @@ public final class RulesEdgesTest {
         p.until(2, 2);
         byte[] want = Bench.block(2, 2, Bench.idOf(FIRST), Plain.part(FIRST, 35, 67), NONE, due);
         p.check("the PROPOSAL", p.flight(p.findOwn(2, 0, 1, 2, 0)), Bench.proposal(2, 2, 0, 255, want));
+    }
+
+    private static void buildAnew() {
+        Play.sentence("each of which can be made behind those parts before it");
+        // a block that node 0 has looked at, but that is not decided, takes nothing from what it builds
+        Play p = new Play(1, 1);
+        p.passRound();
+        p.passRound();
+        byte[] other = Bench.firstBlock(3, NONE, List.of(Bench.payment(0, 1, 999, 0, 1)));
+        p.tell(3, 0, Bench.proposal(3, 1, 2, 255, other));
+        voted(p, 2, other);
+        p.due(1, "submit", 0, 0, 1, 500, 0, 1);
+        p.passRound();
+        p.due(3, "state", 0, 1);
+        byte[] own = Bench.firstBlock(0, NONE, List.of(Bench.payment(0, 1, 500, 0, 1)));
+        p.check("its PROPOSAL", p.flight(p.findOwn(0, 1, 1, 1, 3)), Bench.proposal(0, 1, 3, 255, own));
     }
 
     private static void poolBehindBlocks() {

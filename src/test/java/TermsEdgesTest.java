@@ -24,6 +24,7 @@ public final class TermsEdgesTest {
         proposalHeights();
         asks();
         kinds();
+        numbersOfNodes();
         snapshots();
         accountStates();
         Play.finish("TermsEdgesTest");
@@ -164,6 +165,9 @@ public final class TermsEdgesTest {
             evidence("128 is not less than 127", kind, with(LOW, 0, 128), with(LOW, 0, 127), false);
             evidence("they differ in the last byte", kind, LOW, with(LOW, 31, 8), true);
             evidence("they differ in the last byte", kind, with(LOW, 31, 8), LOW, false);
+            evidence("they differ in the last bit", kind, with(LOW, 31, 6), LOW, true);
+            evidence("they differ in the last bit", kind, LOW, with(LOW, 31, 6), false);
+            evidence("they differ in the first byte's last bit", kind, with(LOW, 0, 6), LOW, true);
             evidence("the last byte's 255 is great", kind, LOW, with(LOW, 31, 255), true);
             evidence("the first place tells", kind, with(HIGH, 3, 1), with(LOW, 3, 2), false);
             evidence("the first place tells", kind, with(LOW, 31, 255), with(LOW, 30, 8), true);
@@ -374,6 +378,27 @@ public final class TermsEdgesTest {
         due("alone", Plain.row(5), false);
     }
 
+    private static void numbersOfNodes() {
+        Play.sentence("its SIGNER (a node), its MAKER (a node): there are N = 3 F + 1");
+        for (int f = 1; f <= 4; f++) {
+            int last = 3 * f;
+            for (int k = last; k <= last + 2; k++) {
+                byte[] vote = Bench.vote(2, k, 1, 0, null);
+                byte[] evidence = Plain.join(Plain.row(6), Bench.evidence(k, 2, 1, 0, null, LOW));
+                byte[] block = Bench.block(2, k, LOW, HIGH, NONE, NONE);
+                byte[] held = Bench.block(2, 0, LOW, HIGH, List.of(Bench.evidence(k, 2, 1, 0, null, LOW)), NONE);
+                byte[] proposal = Bench.proposal(k, 2, 0, 255, Bench.block(2, 0, LOW, HIGH, NONE, NONE));
+                byte[][] all = {vote, evidence, proposal, Plain.join(Plain.row(4), block), Plain.join(Plain.row(4), held)};
+                for (byte[] m : all) {
+                    Play p = new Play(f, 1);
+                    int at = p.flights();
+                    p.tell(last, 0, m);
+                    p.check("node " + k + " of " + (last + 1), p.flights() != at, k == last);
+                }
+            }
+        }
+    }
+
     private static void kinds() {
         Play.sentence("A MESSAGE: its kind, one byte (0 .. 7)");
         byte[][] all = {Plain.join(Plain.row(0), Bench.payment(0, 1, 1, 0, 1)), proposed(decided(0, NONE, NONE)),
@@ -411,7 +436,7 @@ public final class TermsEdgesTest {
             snapshot(truth, "an account has 16001", with(s, at, 62, 129), false, true);
             snapshot(truth, "an account has 65535", with(s, at, 255, 255), false, true);
             snapshot(truth, "65535 payments", with(s, at + 2, 255, 255), true, false);
-            snapshot(truth, "paid is 1", with(s, at + 4, 1), true, false);
+            snapshot(truth, "paid is another one of 0, 1", with(s, at + 4, 1 - s[at + 4]), true, false);
             snapshot(truth, "paid is 2", with(s, at + 4, 2), false, true);
             snapshot(truth, "paid is 255", with(s, at + 4, 255), false, true);
         }
