@@ -12,6 +12,7 @@ public final class ReadEdgesTest {
         pathParts();
         pathWhere();
         pathEvidencesFirst();
+        pathFirst();
         pathLast();
         accountWhere();
         accountEnd();
@@ -127,6 +128,23 @@ public final class ReadEdgesTest {
         p.due(-1, "path", 0, 2, 65, 0);
     }
 
+    private static void pathFirst() {
+        Play.sentence("of an honest node's block at a height of its chain (1 .. 40)");
+        // the first block is that of round 1, whose proposer knows of payments
+        Play p = new Play(1, 1);
+        p.due(1, "submit", 2, 0, 1, 5, 0, 1);
+        p.due(1, "submit", 2, 1, 2, 5, 0, 1);
+        p.passRound();
+        p.until(0, 2);
+        List<byte[]> parts = List.of(Bench.payment(0, 1, 5, 0, 1), Bench.payment(1, 2, 5, 0, 1));
+        p.check("the first block", p.read(115, "block", 0, 1), Bench.firstBlock(2, List.of(), parts));
+        for (int k = 0; k < 2; k++) {
+            p.check("a path of it", p.read(33, "path", 0, 1, k), Plain.pathOf(parts, k));
+        }
+        p.due(-1, "path", 0, 0, 0, 0);
+        p.due(-1, "path", 0, 2, 0, 0);
+    }
+
     private static void pathLast() {
         Play.sentence("of an honest node's block at a height of its chain (1 .. 40)");
         Play p = new Play(1, 0);
@@ -154,12 +172,8 @@ public final class ReadEdgesTest {
         }
         p.put(new byte[101]);
         p.due(0, "seal", 0, 101, 0);
-        p.due(Plain.eight(Plain.sha(head3(p, lines)), 0), "hash", 101, 0);
-    }
-
-    /** A head of 0s with the id ahead and the accounts' root behind a last block. */
-    private static byte[] head3(Play p, List<byte[]> lines) {
-        return Plain.join(new byte[3], Bench.idOf(p.read(101, "block", 0, 40)), Plain.rootOf(lines), new byte[34]);
+        byte[] sealed = Plain.join(new byte[3], Bench.idOf(head), Plain.rootOf(lines), new byte[34]);
+        p.due(Plain.eight(Plain.sha(sealed), 0), "hash", 101, 0);
     }
 
     private static void accountWhere() {
