@@ -341,15 +341,15 @@ public final class NodeEdgesTest {
         for (int run = 0; run < 4; run++) {
             beside[run] = new QuorumLedger(1, 1);
         }
-        long[][] answers = new long[4][500];
-        for (int i = 0; i < 500; i++) {
+        long[][] answers = new long[4][450];
+        for (int i = 0; i < 450; i++) {
             for (int run = 0; run < 4; run++) {
                 answers[run][i] = step(beside[run], run, i);
             }
         }
         for (int run = 0; run < 4; run++) {
             QuorumLedger alone = new QuorumLedger(1, 1);
-            for (int i = 0; i < 500; i++) {
+            for (int i = 0; i < 450; i++) {
                 p.check("call " + i + " of run " + run, answers[run][i], step(alone, run, i));
             }
             p.check("it went far", alone.state(2, 0) > 2, true);
