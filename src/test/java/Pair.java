@@ -1,4 +1,5 @@
 import java.lang.reflect.Method;
+import java.util.Arrays;
 import java.util.HashMap;
 import java.util.Map;
 import java.util.Random;
@@ -98,6 +99,7 @@ final class Pair {
                 call("path", node, h, random.nextInt(4), random.nextInt(70));
             }
         }
+        agree(honest);
         int faults = Audit.faults(ledger);
         if (faults > 0) {
             wrong++;
@@ -111,6 +113,43 @@ final class Pair {
             }
             call("bytes", k, 0);
             call("bytes", k, random.nextInt(120));
+        }
+    }
+
+    /** What the nodes are for: one chain, no honest node proven or made to pay, and money that stays. */
+    private void agree(int honest) {
+        long[][] chain = new long[41][];
+        for (int node = 0; node < honest; node++) {
+            int sum = 0;
+            for (int a = 0; a < 16; a++) {
+                sum += ledger.balance(node, a);
+            }
+            holds(sum == 16000, "the accounts of node " + node + " have " + sum);
+            for (int s = 0; s < honest; s++) {
+                holds(ledger.paid(node, s) == 0, "node " + s + " is honest, and node " + node + " has it otherwise");
+            }
+            for (int h = 1; h <= 40; h++) {
+                if (ledger.state(node, 0) > h && ledger.block(node, h, 0) != -1) {
+                    long[] head = head(node, h);
+                    holds(chain[h] == null || Arrays.equals(chain[h], head), "two blocks are decided at height " + h);
+                    chain[h] = head;
+                }
+            }
+        }
+    }
+
+    private long[] head(int node, int height) {
+        long[] head = new long[13];
+        for (int i = 0; i < head.length; i++) {
+            head[i] = ledger.block(node, height, Math.min(8 * i, 93));
+        }
+        return head;
+    }
+
+    private void holds(boolean so, String otherwise) {
+        if (!so) {
+            wrong++;
+            System.out.println(name + ": " + otherwise + ", behind\n" + calls);
         }
     }
 }
